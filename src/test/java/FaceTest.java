@@ -1,0 +1,59 @@
+import java.lang.reflect.Constructor;
+import java.lang.reflect.Method;
+import java.lang.reflect.Modifier;
+import java.util.Arrays;
+import java.util.Set;
+import java.util.TreeSet;
+
+/** The face of the class is the document's, and there is nothing beside it. */
+public final class FaceTest {
+    private static final Set<String> FACE = new TreeSet<>(Arrays.asList(
+        "int feed(int,long)", "int wipe()", "int load()", "int type()", "void poke(long,int,long)",
+        "long peek(long)", "void set(int,long)", "long get(int)", "void lower(int)", "long control(int)",
+        "void order(int,long)", "void raise(int,boolean)", "int step(int)", "long translate(long,int)",
+        "int look(int)", "int out(int)"));
+
+    private static String written(Method m) {
+        StringBuilder text = new StringBuilder(m.getReturnType() + " " + m.getName() + "(");
+        for (Class<?> c : m.getParameterTypes()) {
+            text.append(text.charAt(text.length() - 1) == '(' ? "" : ",").append(c);
+        }
+        return text.append(")").toString();
+    }
+
+    public static void main(String[] args) {
+        Set<String> open = new TreeSet<>();
+        Set<String> names = new TreeSet<>();
+        for (Method m : HartBoard.class.getDeclaredMethods()) {
+            if (!Modifier.isPrivate(m.getModifiers())) {
+                open.add(written(m));
+                names.add(m.getName());
+                Check.due(m + " is public and no static", m.getModifiers() == Modifier.PUBLIC);
+            }
+        }
+        Check.due("the methods are " + open, open.equals(FACE));
+        for (Method m : HartBoard.class.getDeclaredMethods()) {
+            boolean hidden = Modifier.isPrivate(m.getModifiers());
+            Check.due(m + " has a name of its own", !hidden || !names.contains(m.getName()));
+        }
+        Constructor<?>[] all = HartBoard.class.getDeclaredConstructors();
+        Check.due("constructors", all.length, 1);
+        Check.due("it is public", all[0].getModifiers() == Modifier.PUBLIC);
+        Check.due("the class is public and final",
+            HartBoard.class.getModifiers() == (Modifier.PUBLIC | Modifier.FINAL));
+        for (java.lang.reflect.Field field : HartBoard.class.getDeclaredFields()) {
+            Check.due(field + " is private", Modifier.isPrivate(field.getModifiers()));
+        }
+        Class<?>[] inside = HartBoard.class.getDeclaredClasses();
+        Check.due("classes in the file are at most twelve", inside.length + 1 <= 12);
+        for (Class<?> c : inside) {
+            int m = c.getModifiers();
+            Check.due(c + " is static and not open", Modifier.isStatic(m) && !Modifier.isPublic(m) && !Modifier.isProtected(m));
+            for (java.lang.reflect.Field field : c.getDeclaredFields()) {
+                int how = field.getModifiers();
+                Check.due(field + " is final if it is static", !Modifier.isStatic(how) || Modifier.isFinal(how));
+            }
+        }
+        Check.end();
+    }
+}
