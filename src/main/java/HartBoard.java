@@ -1,4 +1,3 @@
-import java.util.Arrays;
 import java.util.NoSuchElementException;
 
 /** A board with one 64-bit processor, its memory and its devices; ../shared/DOC.md says what it does. */
@@ -380,24 +379,13 @@ public final class HartBoard {
             words[at >> 3] = (words[at >> 3] & ~mask) | ((v << shift) & mask);
         }
 
+        /** By words where it can: a whole RAM of zeros would be long by bytes. */
         void zero(int from, int to) {
-            if (from < 0 || to > size) {
-                return;
-            }
-            int firstWord = (from + 7) >> 3;
-            int endWord = to >> 3;
-            if (firstWord < endWord) {
-                zeroBytes(from, firstWord * 8);
-                Arrays.fill(words, firstWord, endWord, 0L);
-                zeroBytes(endWord * 8, to);
-            } else {
-                zeroBytes(from, to);
-            }
-        }
-
-        private void zeroBytes(int from, int to) {
-            for (int at = from; at < to; at++) {
-                write(at, 1, 0);
+            int at = from;
+            while (at < to) {
+                int n = (at & 7) == 0 && to - at >= 8 ? 8 : 1;
+                write(at, n, 0);
+                at += n;
             }
         }
     }

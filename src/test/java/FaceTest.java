@@ -49,6 +49,10 @@ public final class FaceTest {
         for (Class<?> c : inside) {
             int m = c.getModifiers();
             Check.due(c + " is static and not open", Modifier.isStatic(m) && !Modifier.isPublic(m) && !Modifier.isProtected(m));
+            for (Method own : c.getDeclaredMethods()) {
+                Check.due(own + " has a name of its own", !names.contains(own.getName()));
+                Check.due(own + " takes at most seven", own.getParameterCount() <= 7);
+            }
             for (java.lang.reflect.Field field : c.getDeclaredFields()) {
                 int how = field.getModifiers();
                 Check.due(field + " is final if it is static", !Modifier.isStatic(how) || Modifier.isFinal(how));

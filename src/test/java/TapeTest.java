@@ -26,7 +26,8 @@ public final class TapeTest {
         Check.due("type behind wipe", x.type(), 0);
     }
 
-    private static void wrongNumberWhenFull() {
+    /** More calls than the document promises answers for: the limits of 65536 are not reached by fewer. */
+    private static void fullOnes() {
         HartBoard x = new HartBoard(16);
         for (int k = 0; k < 8192; k++) {
             x.feed(8, k);
@@ -81,7 +82,7 @@ public final class TapeTest {
 
     public static void main(String[] args) {
         feeding();
-        wrongNumberWhenFull();
+        fullOnes();
         nearlyFull();
         inputAroundTheEnd();
         Check.end();
