@@ -307,19 +307,15 @@ public final class HartBoard {
                 return;
             }
             if (count == row.length) {
-                grow();
+                byte[] longer = new byte[row.length * 2];
+                for (int k = 0; k < row.length; k++) {
+                    longer[k] = row[(first + k) & (row.length - 1)];
+                }
+                row = longer;
+                first = 0;
             }
             row[(first + count) & (row.length - 1)] = (byte) b;
             count++;
-        }
-
-        private void grow() {
-            byte[] longer = new byte[row.length * 2];
-            for (int k = 0; k < count && k < longer.length; k++) {
-                longer[k] = row[(first + k) & (row.length - 1)];
-            }
-            row = longer;
-            first = 0;
         }
 
         int byteAt(int k) {
@@ -1081,11 +1077,7 @@ public final class HartBoard {
             if ((lower & 3) != 3) {
                 raw = lower;
                 next = pc + 2;
-                int w = Expander.widened(lower);
-                if (w == Expander.ILLEGAL) {
-                    illegal();
-                }
-                return w;
+                return Expander.widened(lower);
             }
             raw = (fetchedHalf(pc + 2) << 16) | lower;
             next = pc + 4;
@@ -1399,7 +1391,7 @@ public final class HartBoard {
 
     /** Instructions of 16 bits as the ones of 32 bits that they stand for. */
     private static final class Expander {
-        /** No instruction of 32 bits is 0. */
+        /** No instruction of 32 bits: to execute it is illegal. */
         private static final int ILLEGAL = 0;
         private static final int BREAK = 0x100073;
 

@@ -178,6 +178,7 @@ public final class AccessTest {
         Check.due("status with input", load(x, 4, LINE + 5), 97);
         Check.due("a byte with its sign", load(x, 0, LINE), -1);
         Check.due("a byte", load(x, 4, LINE), 0x41);
+        Check.due("status with one byte", load(x, 4, LINE + 5), 97);
         x.set(6, LINE);
         Code.one(x, Code.load(4, 0, 6, 0));
         Check.due("a byte read into x0 goes too", x.look(1), 0);

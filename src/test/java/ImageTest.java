@@ -111,6 +111,15 @@ public final class ImageTest {
         image.due("what is wrong in a row of another type", 0);
     }
 
+    private static void whatNobodyAsks() {
+        Image image = new Image(2, 64 + 3 * 56).row(0, 0, RAM, 8, 8).row(1, 0, RAM + 8, 8, 8).row(2, 9999, 0, 2, 1);
+        image.due("a row behind the last one", 0);
+        image.put(56, 2, 3).due("the same row as one of three", 6);
+        HartBoard x = good().put(68, 4, -1).put(80, 8, -1).put(112, 8, -1).board();
+        Check.due("load with other fields of a row", x.load(), 0);
+        Check.due("it is brought", x.peek(RAM), 0x1122334455667788L);
+    }
+
     private static void errors() {
         HartBoard empty = new HartBoard(16);
         Check.due("no tape", empty.load(), 1);
@@ -229,6 +238,7 @@ public final class ImageTest {
         rightOnes();
         placesOfZeros();
         rowsInOrder();
+        whatNobodyAsks();
         errors();
         errorsOfRows();
         againstTheModel();

@@ -91,6 +91,30 @@ public final class InterruptTest {
         Check.due("not enabled: still claimed", x.look(10), 0x2c);
     }
 
+    private static void oneSourceAndTheOthers() {
+        HartBoard x = open();
+        store(x, 2, CONTROLLER + 4 * 7, 7);
+        for (int s = 2; s < 8; s++) {
+            x.raise(s, true);
+        }
+        x.raise(7, false);
+        Check.due("claim", claim(x, 0), 7);
+        Check.due("claimed", x.look(10), 0x80);
+        complete(x, 0, 7);
+        Check.due("claimed no more", x.look(10), 0);
+        Check.due("low", x.look(9), 0x7c);
+        Check.due("claim", claim(x, 0), 4);
+        x.raise(7, false);
+        x.raise(2, false);
+        complete(x, 0, 4);
+        Check.due("4 is still high when others are low", x.look(9), 0x7c);
+        x.raise(7, true);
+        Check.due("7 again", claim(x, 0), 7);
+        x.raise(4, false);
+        complete(x, 0, 7);
+        Check.due("7 is still high", x.look(9), 0xfc);
+    }
+
     private static void lineSource() {
         HartBoard x = open();
         x.feed(2, 0x4142);
@@ -276,6 +300,7 @@ public final class InterruptTest {
     public static void main(String[] args) {
         raising();
         claiming();
+        oneSourceAndTheOthers();
         lineSource();
         calling();
         taking();
