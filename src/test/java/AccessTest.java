@@ -220,9 +220,9 @@ public final class AccessTest {
     private static void atomics() {
         int[] what = {1, 0, 4, 12, 8, 16, 20, 24, 28};
         long a = 0x80000000ffffff00L;
-        long b = 0x0000000f0000000fL;
+        long b = 0x0000000f00000f0fL;
         long[] eight = {b, a + b, a ^ b, a & b, a | b, a, b, b, a};
-        long[] four = {0xf, 0xffffff0fL, 0xffffff0fL, 0, 0xffffff0fL, 0xffffff00L, 0xf, 0xf, 0xffffff00L};
+        long[] four = {0xf0f, 0xe0f, 0xfffff00fL, 0xf00, 0xffffff0fL, 0xffffff00L, 0xf0f, 0xf0f, 0xffffff00L};
         for (int k = 0; k < what.length; k++) {
             for (int bits = 0; bits < 4; bits++) {
                 HartBoard x = board();
