@@ -6,15 +6,25 @@ final class Check {
 
     private static int made = 0;
     private static int wrong = 0;
+    private static String about = "";
 
     private Check() {
+    }
+
+    /** What the answers from now on are for; it is printed before those that are not as due. */
+    static void about(String sentence) {
+        about = sentence.isEmpty() ? "" : sentence + "\n    ";
+    }
+
+    static int made() {
+        return made;
     }
 
     static void due(String what, long got, long want) {
         made++;
         if (got != want) {
             wrong++;
-            System.out.println(what + " answered " + got + " (0x" + Long.toHexString(got) + "), due is "
+            System.out.println(about + what + " answered " + got + " (0x" + Long.toHexString(got) + "), due is "
                 + want + " (0x" + Long.toHexString(want) + ")");
         }
     }
@@ -33,7 +43,7 @@ final class Check {
         }
         if (!got.equals(want.getName())) {
             wrong++;
-            System.out.println(what + " threw " + got + ", due is " + want.getName());
+            System.out.println(about + what + " threw " + got + ", due is " + want.getName());
         }
     }
 

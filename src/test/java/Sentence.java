@@ -1,0 +1,109 @@
+import java.io.IOException;
+import java.io.UncheckedIOException;
+import java.nio.file.Files;
+import java.nio.file.Path;
+import java.util.Arrays;
+
+/**
+ * The sentences of ../shared/DOC.md, and which of them a test is for. A test says its sentence first; the sentence must
+ * stand in the document, word by word, in the part that the test names.
+ */
+final class Sentence {
+    /** How the parts of 'Terms' begin, in their order. */
+    private static final String[] TERMS = {"WORDS.", "PRIVILEGE is 0 (user)", "PHYSICAL MEMORY (", "CONTROL REGISTERS (",
+        "A STEP.", "INSTRUCTIONS of 32 bits", "INSTRUCTIONS of 16 bits", "IMAGES.", "Of several exceptions", "## Promise 1:"};
+    private static final int PROMISES = 17;
+
+    private static final String TEXT = text();
+    private static final boolean[] SAID = new boolean[TEXT.length()];
+    private static int madeBefore = 0;
+    private static String latest = "";
+
+    private Sentence() {
+    }
+
+    private static String text() {
+        try {
+            return Files.readString(Path.of("../shared/DOC.md")).replace("```text", "").replace("```", "")
+                .replaceAll("\\s+", " ");
+        } catch (IOException e) {
+            throw new UncheckedIOException(e);
+        }
+    }
+
+    /** A sentence that stands under the heading of a promise. */
+    static void of(int promise, String words) {
+        int from = TEXT.indexOf("## Promise " + promise + ":");
+        begin("Promise " + promise + ": '" + words + "'", words, from, endOfPromise(promise));
+    }
+
+    /** A sentence that stands under 'Terms', for a promise that rests on it. */
+    static void of(int promise, String term, String words) {
+        String where = "Promise " + promise + ", Terms, " + term + ": '" + words + "'";
+        int from = 0;
+        for (int k = 0; k + 1 < TERMS.length; k++) {
+            from = TEXT.indexOf(TERMS[k], from);
+            if (TERMS[k].startsWith(term)) {
+                begin(where, words, from, TEXT.indexOf(TERMS[k + 1], from + 1));
+                return;
+            }
+        }
+        Check.about(where);
+        Check.due("there is such a part of Terms", false);
+    }
+
+    /** The sentence that stands before all promises: how long an object is used. */
+    static void ofUse(String words) {
+        begin("What it is: '" + words + "'", words, 0, TEXT.indexOf("## The public face"));
+    }
+
+    private static int endOfPromise(int promise) {
+        return TEXT.indexOf(promise == PROMISES ? "## Not promised" : "## Promise " + (promise + 1) + ":");
+    }
+
+    private static void begin(String where, String words, int from, int to) {
+        endOfLatest();
+        Check.about(where);
+        int at = TEXT.indexOf(words, Math.max(from, 0));
+        boolean stands = from >= 0 && at >= 0 && at + words.length() <= to;
+        Check.due("the document says so in that part", stands);
+        if (stands) {
+            int again = TEXT.indexOf(words, at + 1);
+            Check.due("it is said once there", again < 0 || again >= to);
+            Arrays.fill(SAID, at, at + words.length(), true);
+        }
+        latest = where;
+        madeBefore = Check.made();
+    }
+
+    private static void endOfLatest() {
+        if (!latest.isEmpty()) {
+            Check.about(latest);
+            Check.due("a test of its own was made", Check.made() > madeBefore);
+        }
+    }
+
+    /** At the end: what under 'Terms' and the promises was no test's sentence has no words, but for those given. */
+    static void dueAllBut(String... words) {
+        endOfLatest();
+        Check.about("");
+        for (int promise = 1; promise <= PROMISES; promise++) {
+            int from = TEXT.indexOf("## Promise " + promise + ":");
+            dueSaid(TEXT.indexOf("`:", from) + 2, endOfPromise(promise), words);
+        }
+        dueSaid(TEXT.indexOf("## Terms") + "## Terms".length(), TEXT.indexOf("## Promise 1:"), words);
+    }
+
+    private static void dueSaid(int from, int to, String[] words) {
+        StringBuilder rest = new StringBuilder();
+        for (int k = from; k <= to; k++) {
+            if (k < to && !SAID[k]) {
+                rest.append(TEXT.charAt(k));
+            } else {
+                String left = rest.toString().replaceAll("^[^A-Za-z0-9]+|[^A-Za-z0-9]+$", "");
+                Check.due("a test is for '" + left + "'", left.isEmpty() || Arrays.asList(words).contains(left));
+                rest.setLength(0);
+            }
+        }
+    }
+}
