@@ -212,7 +212,8 @@ final class SentencesOfCalls {
     }
 
     private static void poke() {
-        Sentence.of(6, "n bytes (1 .. 8) of v are written into RAM at a physical address, lowest first; the reservation stays.");
+        Sentence.of(6, "n bytes (1 .. 8) of v are written into RAM at a physical address, lowest first; the reservation"
+            + " stays.");
         for (int n = 1; n <= 8; n++) {
             for (int at = 0; at < 8; at++) {
                 HartBoard x = new HartBoard(16);
@@ -292,8 +293,10 @@ final class SentencesOfCalls {
     private static void peekOutside() {
         Sentence.of(7, "Throws NoSuchElementException when not all of them lie in RAM.");
         HartBoard x = new HartBoard(16);
-        long[] wrong = {0, 1, -1, -8, -7, Long.MIN_VALUE, Long.MAX_VALUE, Long.MAX_VALUE - 7, RAM - 1, RAM - 7, RAM - 8, END - 7,
-            END - 1, END, END + 8, RAM + Long.MIN_VALUE, RAM + (1L << 32), -RAM, Steps.LINE, Steps.SOFT, Steps.COMPARE, Steps.TIME,
+        long[] wrong = {0, 1, -1, -8, -7, Long.MIN_VALUE, Long.MAX_VALUE, Long.MAX_VALUE - 7, RAM - 1, RAM - 7, RAM - 8,
+            END - 7,
+            END - 1, END, END + 8, RAM + Long.MIN_VALUE, RAM + (1L << 32), -RAM, Steps.LINE, Steps.SOFT, Steps.COMPARE,
+                Steps.TIME,
             Steps.CONTROLLER};
         for (long address : wrong) {
             Check.dueNoSuchElement("peek at " + Steps.hex(address), () -> x.peek(address));
@@ -424,7 +427,8 @@ final class SentencesOfCalls {
             }
         }
         HartBoard y = new HartBoard(16);
-        for (int number : new int[] {0x10300, 0x300 - 0x1000, Integer.MIN_VALUE + 0x300, Integer.MIN_VALUE, Integer.MAX_VALUE}) {
+        for (int number : new int[] {0x10300, 0x300 - 0x1000, Integer.MIN_VALUE + 0x300, Integer.MIN_VALUE,
+            Integer.MAX_VALUE}) {
             Check.dueIllegalArgument("control " + number, () -> y.control(number));
         }
     }
@@ -471,7 +475,8 @@ final class SentencesOfCalls {
             }
         }
         HartBoard y = new HartBoard(16);
-        for (int number : new int[] {0x10340, 0x340 - 0x1000, Integer.MIN_VALUE + 0x340, Integer.MIN_VALUE, Integer.MAX_VALUE}) {
+        for (int number : new int[] {0x10340, 0x340 - 0x1000, Integer.MIN_VALUE + 0x340, Integer.MIN_VALUE,
+            Integer.MAX_VALUE}) {
             Check.dueIllegalArgument("order " + number, () -> y.order(number, -1));
         }
         Check.due("0x340 stays", y.control(0x340), 0);
@@ -542,8 +547,8 @@ final class SentencesOfCalls {
     }
 
     private static void translate() {
-        Sentence.of(15, "Where an address would be translated to for a kind of access (0 fetch, 1 load, 2 store) as things are:"
-            + " the physical address; -1 - CAUSE when that faults.");
+        Sentence.of(15, "Where an address would be translated to for a kind of access (0 fetch, 1 load, 2 store) as things"
+            + " are: the physical address; -1 - CAUSE when that faults.");
         HartBoard x = Steps.board(1);
         long root = RAM + 0x4000;
         x.order(Code.SATP, 8L << 60 | root / 4096);
@@ -567,8 +572,8 @@ final class SentencesOfCalls {
     }
 
     private static void translateWithout() {
-        Sentence.of(15, "(What is there is not asked; without translation the address itself, whatever it is, also one that looks"
-            + " like a fault.)");
+        Sentence.of(15, "(What is there is not asked; without translation the address itself, whatever it is, also one that"
+            + " looks like a fault.)");
         HartBoard x = Steps.board(1);
         long[] addresses = {0, 1, -1, -2, -6, -8, -13, -14, -16, Long.MIN_VALUE, Long.MAX_VALUE, RAM, END, Steps.LINE};
         for (long v : addresses) {
@@ -634,8 +639,9 @@ final class SentencesOfCalls {
 
     private static void look() {
         Sentence.of(16, "0 PRIVILEGE, 1 bytes of INPUT that are left, 2 bytes of OUTPUT, 3 traps since the beginning (without"
-            + " interrupts), 4 interrupts taken, 5 the CAUSE of the latest of both (-1 before; of an interrupt 64 + i), 6 bytes of"
-            + " the tape, 7 the size of the reservation (0 for none), 8 PAGES, 9 pending sources (bit s), 10 claimed ones.");
+            + " interrupts), 4 interrupts taken, 5 the CAUSE of the latest of both (-1 before; of an interrupt 64 + i), 6"
+            + " bytes of the tape, 7 the size of the reservation (0 for none), 8 PAGES, 9 pending sources (bit s), 10 claimed"
+            + " ones.");
         int[] first = {3, 0, 0, 0, 0, -1, 0, 0, 16, 0, 0};
         int[] later = {1, 7, 2, 2, 4, 64 + 5, 5, 4, 33, 1 << 2, 1 << 7};
         HartBoard fresh = new HartBoard(16);
@@ -712,7 +718,8 @@ final class SentencesOfCalls {
     }
 
     private static void severalExceptions() {
-        Sentence.of(14, "Of several exceptions", "Of several exceptions that hold the one listed first is thrown; a call that throws"
+        Sentence.of(14, "Of several exceptions", "Of several exceptions that hold the one listed first is thrown; a call"
+            + " that throws"
             + " changes nothing.");
         HartBoard full = withTape(65536);
         Check.dueIllegalArgument("a feed of 9 onto a full tape", () -> full.feed(9, 1));
@@ -722,7 +729,8 @@ final class SentencesOfCalls {
         long end = RAM + 33 * 4096;
         Refused[] calls = {x -> x.feed(0, -1), x -> x.feed(9, -1), x -> x.poke(RAM, 0, -1), x -> x.poke(RAM, 9, -1),
             x -> x.poke(end - 1, 2, -1), x -> x.poke(end - 7, 8, -1), x -> x.poke(RAM - 1, 2, -1), x -> x.peek(end - 7),
-            x -> x.set(-1, 9), x -> x.set(33, 9), x -> x.get(33), x -> x.lower(2), x -> x.control(0x307), x -> x.order(0x307, -1),
+            x -> x.set(-1, 9), x -> x.set(33, 9), x -> x.get(33), x -> x.lower(2), x -> x.control(0x307), x -> x.order(0x307,
+                -1),
             x -> x.raise(1, true), x -> x.raise(8, true), x -> x.raise(0, false), x -> x.step(-1), x -> x.step(4097),
             x -> x.translate(0, 3), x -> x.look(11), x -> x.out(2), x -> x.out(-1)};
         for (int k = 0; k < calls.length; k++) {

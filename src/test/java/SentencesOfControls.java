@@ -187,8 +187,8 @@ final class SentencesOfControls {
     private static void timeInMip() {
         Sentence.of(11, CONTROLS, "bit 7 whether TIME is not below COMPARE (unsigned),");
         // What TIME is behind the step that writes it, COMPARE, whether the bit is 1.
-        long[][] rows = {{5, 6, 0}, {6, 6, 1}, {7, 6, 1}, {0, 0, 1}, {0, 1, 0}, {1, 0, 1}, {-1, -1, 1}, {-2, -1, 0}, {5, -1, 0},
-            {-1, 5, 1}, {Long.MAX_VALUE, Long.MIN_VALUE, 0}, {Long.MIN_VALUE, Long.MAX_VALUE, 1},
+        long[][] rows = {{5, 6, 0}, {6, 6, 1}, {7, 6, 1}, {0, 0, 1}, {0, 1, 0}, {1, 0, 1}, {-1, -1, 1}, {-2, -1, 0},
+            {5, -1, 0}, {-1, 5, 1}, {Long.MAX_VALUE, Long.MIN_VALUE, 0}, {Long.MIN_VALUE, Long.MAX_VALUE, 1},
             {Long.MIN_VALUE, Long.MIN_VALUE, 1}, {0, -1, 0}};
         for (long[] row : rows) {
             HartBoard x = Steps.board();
@@ -298,7 +298,8 @@ final class SentencesOfControls {
     }
 
     private static void supervisorLikeMachine() {
-        Sentence.of(12, CONTROLS, "STVEC 0x105, SSCRATCH 0x140, SEPC 0x141, SCAUSE 0x142, STVAL 0x143 as those of the machine.");
+        Sentence.of(12, CONTROLS, "STVEC 0x105, SSCRATCH 0x140, SEPC 0x141, SCAUSE 0x142, STVAL 0x143 as those of the"
+            + " machine.");
         kept(0x105, ~2L);
         kept(0x140, -1);
         kept(0x141, ~1L);
@@ -339,8 +340,8 @@ final class SentencesOfControls {
     }
 
     private static void satp() {
-        Sentence.of(12, CONTROLS, "SATP 0x180: MODE 63..60 (0 or 8: a write of another one is lost as a whole), 59..44 kept, ROOT"
-            + " 43..0.");
+        Sentence.of(12, CONTROLS, "SATP 0x180: MODE 63..60 (0 or 8: a write of another one is lost as a whole), 59..44 kept,"
+            + " ROOT 43..0.");
         long rest = (1L << 60) - 1;
         for (long before : new long[] {0, 8L << 60 | 0x123456789abcdefL, 0x0fedcba987654321L}) {
             HartBoard x = new HartBoard(16);
@@ -392,7 +393,8 @@ final class SentencesOfControls {
     }
 
     private static void openCounters() {
-        Sentence.of(14, CONTROLS, "from privilege 1 only if bit 0, 1, 2 of 0x306 is 1, from 0 if those of 0x306 and 0x106 are.");
+        Sentence.of(14, CONTROLS, "from privilege 1 only if bit 0, 1, 2 of 0x306 is 1, from 0 if those of 0x306 and 0x106"
+            + " are.");
         for (int machine = 0; machine < 8; machine++) {
             for (int supervisor = 0; supervisor < 8; supervisor++) {
                 String what = "with " + machine + " and " + supervisor;

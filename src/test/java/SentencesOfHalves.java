@@ -132,8 +132,8 @@ final class SentencesOfHalves {
     }
 
     private static void fields() {
-        Sentence.of(14, KIND, "r = H[11..7], s = H[6..2]; r' = 8 + H[9..7], s' = 8 + H[4..2]; i6 = SX(H[12], H[6..2], 6); u6 the same"
-            + " without a sign.");
+        Sentence.of(14, KIND, "r = H[11..7], s = H[6..2]; r' = 8 + H[9..7], s' = 8 + H[4..2]; i6 = SX(H[12], H[6..2], 6); u6"
+            + " the same without a sign.");
         for (int register = 0; register < 32; register++) {
             due("r", kind(1, 2) | r(register) | six(5), register, 5);
             if (register != 0) {
@@ -314,8 +314,8 @@ final class SentencesOfHalves {
     }
 
     private static void computing() {
-        Sentence.of(14, KIND, "1, 4: by H[11..10]: 0 r' down with 0s by u6, 1 with its highest bit, 2 r' and i6, 3: with H[12] 0, by H[6..5]: r'"
-            + " - s', xor, or, and; with H[12] 1: 0 SX(r' - s', 32), 1 SX(r' + s', 32).");
+        Sentence.of(14, KIND, "1, 4: by H[11..10]: 0 r' down with 0s by u6, 1 with its highest bit, 2 r' and i6, 3: with"
+            + " H[12] 0, by H[6..5]: r' - s', xor, or, and; with H[12] 1: 0 SX(r' - s', 32), 1 SX(r' + s', 32).");
         for (int k : new int[] {0, 4, 7}) {
             long a = value(8 + k);
             for (int v : SIX_BITS) {
@@ -366,6 +366,14 @@ final class SentencesOfHalves {
                     Check.due("a branch by 2 * " + v + " of " + a, x.get(32), taken ? DATA + 2 * v : DATA + 2);
                 }
             }
+        }
+        for (int k = 0; k < 8; k++) {
+            HartBoard x = board();
+            x.set(8 + k, 0);
+            done("a branch of 0", x, kind(1, 6) | put("12, 6..5, 2, 11..10, 4..3", 8) | k << 7);
+            Check.due("if x" + (8 + k) + " is 0", x.get(32), RAM + 16);
+            done("a branch of 0", x, kind(1, 7) | put("12, 6..5, 2, 11..10, 4..3", 8) | k << 7);
+            Check.due("if x" + (8 + k) + " is not 0", x.get(32), RAM + 2);
         }
     }
 

@@ -129,13 +129,15 @@ final class SentencesOfImages {
     }
 
     private static void rowFields() {
-        Sentence.of(4, IMAGES, "A row of 56: at 0 (4) its TYPE; at 8 (8) OFFSET; at 24 (8) the physical ADDRESS; at 32 (8) SIZE in the tape; at"
-            + " 40 (8) SIZE in memory.");
+        Sentence.of(4, IMAGES, "A row of 56: at 0 (4) its TYPE; at 8 (8) OFFSET; at 24 (8) the physical ADDRESS; at 32 (8)"
+            + " SIZE in the tape; at 40 (8) SIZE in memory.");
         for (int bit = 0; bit < 32; bit++) {
             HartBoard x = good().put(64, 4, 1 ^ 1L << bit).board();
             Check.due("another TYPE", x.load(), 0);
             Check.due("is not brought", x.peek(RAM), 0);
+            good().row(0, -1, 0, -1, 0).put(64, 4, 1 ^ 1L << bit).due("errors of another TYPE", 0);
         }
+        good().row(0, -1, 0, -1, 0).put(68, 4, -1).due("errors of TYPE 1, whatever is behind it", 6);
         Image image = good();
         for (int at : new int[] {4, 16, 48}) {
             image.put(64 + at, at == 4 ? 4 : 8, -1);
@@ -147,7 +149,8 @@ final class SentencesOfImages {
             for (int bit = 20; bit < 64; bit++) {
                 Image wrong = good();
                 long v = at == 8 ? 120 : at == 24 ? RAM : at == 32 ? 16 : 24;
-                wrong.put(64 + at, 8, v ^ 1L << bit).due("the field at " + at + " with bit " + bit, at == 8 || at == 32 ? 6 : 7);
+                wrong.put(64 + at, 8, v ^ 1L << bit).due("the field at " + at + " with bit " + bit,
+                    at == 8 || at == 32 ? 6 : 7);
             }
         }
     }
@@ -222,7 +225,8 @@ final class SentencesOfImages {
             new Image(rows, 64 + 56 * rows - 1).due(rows + " rows, one byte too few", 5);
             new Image(rows, 64 + 56 * rows).put(32, 8, 65).due(rows + " rows, one byte further", 5);
         }
-        for (long at : new long[] {136, 137, 1L << 31, 1L << 32, 64 | 1L << 32, Long.MIN_VALUE, Long.MAX_VALUE, -1, -56, -64 + 8}) {
+        for (long at : new long[] {136, 137, 1L << 31, 1L << 32, 64 | 1L << 32, Long.MIN_VALUE, Long.MAX_VALUE, -1, -56,
+            -64 + 8}) {
             good().put(32, 8, at).due("rows at " + at, 5);
         }
         good().put(32, 8, 80).put(64 + 16, 4, 0).due("rows at the last place", 0);
@@ -303,7 +307,8 @@ final class SentencesOfImages {
 
     private static void wrongEntry() {
         Sentence.of(4, IMAGES, "9 (at last) ENTRY is not in RAM, or odd.");
-        for (long entry : new long[] {RAM + 1, END - 1, RAM - 2, RAM - 1, END, END + 2, 0, -2, -1, RAM + Long.MIN_VALUE, RAM + (1L << 32),
+        for (long entry : new long[] {RAM + 1, END - 1, RAM - 2, RAM - 1, END, END + 2, 0, -2, -1, RAM + Long.MIN_VALUE,
+            RAM + (1L << 32),
             Long.MIN_VALUE}) {
             good().put(24, 8, entry).due("ENTRY " + Steps.hex(entry), 9);
         }
@@ -324,9 +329,12 @@ final class SentencesOfImages {
 
     private static void errorsChangeNothing() {
         Sentence.of(4, IMAGES, "With an error nothing changes.");
-        Image[] wrong = {new Image(1, 63), good().put(0, 1, 1), good().put(16, 1, 1), good().put(56, 2, 0), good().put(32, 8, -1),
-            new Image(2, 192).row(0, 0, RAM, 64, 64).row(1, 999, RAM, 1, 1), new Image(2, 192).row(0, 0, RAM, 64, 64).row(1, 0, 0, 1, 1),
-            new Image(2, 192).row(0, 0, RAM, 64, 64).row(1, 0, RAM, 2, 1), new Image(2, 192).row(0, 0, RAM, 64, 64).put(24, 8, 1)};
+        Image[] wrong = {new Image(1, 63), good().put(0, 1, 1), good().put(16, 1, 1), good().put(56, 2, 0), good().put(32, 8,
+            -1),
+            new Image(2, 192).row(0, 0, RAM, 64, 64).row(1, 999, RAM, 1, 1), new Image(2, 192).row(0, 0, RAM, 64, 64).row(1, 0,
+                0, 1, 1),
+            new Image(2, 192).row(0, 0, RAM, 64, 64).row(1, 0, RAM, 2, 1), new Image(2, 192).row(0, 0, RAM, 64, 64).put(24, 8,
+                1)};
         int[] errors = {1, 2, 3, 4, 5, 6, 7, 8, 9};
         for (int k = 0; k < wrong.length; k++) {
             HartBoard x = wrong[k].board();
@@ -344,8 +352,10 @@ final class SentencesOfImages {
     }
 
     private static void whatChanges() {
-        Sentence.of(4, IMAGES, "Otherwise the rows are brought in order, PC is ENTRY, PRIVILEGE 3, the reservation gone; all else stays.");
-        Image image = new Image(3, 64 + 3 * 56 + 8).put(232, 8, 0x0807060504030201L).row(0, 232, RAM, 8, 8).row(1, 232, RAM + 4, 1, 3)
+        Sentence.of(4, IMAGES, "Otherwise the rows are brought in order, PC is ENTRY, PRIVILEGE 3, the reservation gone; all"
+            + " else stays.");
+        Image image = new Image(3, 64 + 3 * 56 + 8).put(232, 8, 0x0807060504030201L).row(0, 232, RAM, 8, 8).row(1, 232, RAM + 4,
+            1, 3)
             .row(2, 239, RAM + 1, 1, 1).put(24, 8, RAM + 6);
         for (int privilege : Steps.PRIVILEGES) {
             HartBoard x = image.board();

@@ -31,6 +31,10 @@ final class SentencesOfInstructions {
         plain();
         otherWay();
         products();
+        quotients();
+        unsignedQuotients();
+        rests();
+        unsignedRests();
         narrow();
         atomicSizes();
         reserving();
@@ -75,7 +79,8 @@ final class SentencesOfInstructions {
     }
 
     private static void fields() {
-        Sentence.of(14, KIND, "W: rd W[11..7], rs1 W[19..15], rs2 W[24..20], f W[14..12], g W[31..25]; a, b what rs1, rs2 have;");
+        Sentence.of(14, KIND, "W: rd W[11..7], rs1 W[19..15], rs2 W[24..20], f W[14..12], g W[31..25]; a, b what rs1, rs2"
+            + " have;");
         for (int rd : new int[] {0, 1, 2, 15, 16, 30, 31}) {
             for (int rs1 : new int[] {0, 1, 15, 16, 31}) {
                 for (int rs2 : new int[] {0, 1, 15, 16, 31}) {
@@ -122,7 +127,8 @@ final class SentencesOfInstructions {
 
     private static void jumpConstants() {
         Sentence.of(14, KIND, "J = SX of W[31], W[19..12], W[20], W[30..21], 0, 21;");
-        for (int k : new int[] {0, 2, 1024, 2046, 2048, 2050, 4096, 0x80000, 0xff000, 0xffffe, -2, -2048, -4096, -0x80000, -0xffffe,
+        for (int k : new int[] {0, 2, 1024, 2046, 2048, 2050, 4096, 0x80000, 0xff000, 0xffffe, -2, -2048, -4096, -0x80000,
+            -0xffffe,
             -0x100000}) {
             HartBoard x = Steps.board();
             Code.begin(x, DATA, Code.jal(0, k));
@@ -239,7 +245,8 @@ final class SentencesOfInstructions {
     }
 
     private static void loads() {
-        Sentence.of(14, KIND, "0x03: rd = SX of 1, 2, 4, 8 bytes at a + I (f 0 to 3), or they with 0s above (4, 5, 6: 1, 2, 4).");
+        Sentence.of(14, KIND, "0x03: rd = SX of 1, 2, 4, 8 bytes at a + I (f 0 to 3), or they with 0s above (4, 5, 6: 1, 2,"
+            + " 4).");
         long[] words = {0x8182838485868788L, 0x7f7e7d7c7b7a7978L, -1, 0};
         for (long word : words) {
             for (int f = 0; f < 7; f++) {
@@ -281,13 +288,14 @@ final class SentencesOfInstructions {
     }
 
     private static void constants() {
-        Sentence.of(14, KIND, "0x13: rd = (0) a + I, (2) a < I (1 or 0), (3) unsigned, (4) a xor I, (6) or, (7) and, (1) W[31..26] 0: a"
-            + " shifted up by W[25..20], (5) down with 0s, with W[31..26] 16: with its highest bit.");
-        long[][] rows = {{0, MAX, 1, MIN}, {0, MIN, -1, MAX}, {2, -1, 0, 1}, {2, 0, -1, 0}, {2, -1, -1, 0}, {2, MIN, -2048, 1},
-            {3, 0, -1, 1}, {3, -1, -1, 0}, {3, -2, -1, 1}, {3, 5, 5, 0}, {3, 4, 5, 1}, {3, -1, 5, 0}, {4, 0x55, -1, ~0x55L},
-            {4, -1, 2047, -2048}, {6, 0x55, -2048, -2048 | 0x55}, {6, 0x800, 1, 0x801}, {7, -1, -2048, -2048}, {7, 0xff, 0x55, 0x55},
-            {1, 1, 0, 1}, {1, 1, 63, MIN}, {1, 3, 63, MIN}, {1, -1, 32, -1L << 32}, {5, MIN, 63, 1}, {5, -1, 0, -1}, {5, -1, 32,
-            0xffffffffL}, {5, MIN, 0x400 | 63, -1}, {5, MIN, 0x400, MIN}, {5, MAX, 0x400 | 62, 1}, {5, -1, 0x400 | 32, -1}};
+        Sentence.of(14, KIND, "0x13: rd = (0) a + I, (2) a < I (1 or 0), (3) unsigned, (4) a xor I, (6) or, (7) and, (1)"
+            + " W[31..26] 0: a shifted up by W[25..20], (5) down with 0s, with W[31..26] 16: with its highest bit.");
+        long[][] rows = {{0, MAX, 1, MIN}, {0, MIN, -1, MAX}, {2, -1, 0, 1}, {2, 0, -1, 0}, {2, -1, -1, 0},
+            {2, MIN, -2048, 1}, {3, 0, -1, 1}, {3, -1, -1, 0}, {3, -2, -1, 1}, {3, 5, 5, 0}, {3, 4, 5, 1}, {3, -1, 5, 0},
+            {4, 0x55, -1, ~0x55L}, {4, -1, 2047, -2048}, {6, 0x55, -2048, -2048 | 0x55}, {6, 0x800, 1, 0x801},
+            {7, -1, -2048, -2048}, {7, 0xff, 0x55, 0x55}, {1, 1, 0, 1}, {1, 1, 63, MIN}, {1, 3, 63, MIN},
+            {1, -1, 32, -1L << 32}, {5, MIN, 63, 1}, {5, -1, 0, -1}, {5, -1, 32, 0xffffffffL}, {5, MIN, 0x400 | 63, -1},
+            {5, MIN, 0x400, MIN}, {5, MAX, 0x400 | 62, 1}, {5, -1, 0x400 | 32, -1}};
         for (long[] row : rows) {
             dueConstant(0x13, (int) row[0], row[1], (int) row[2], row[3]);
         }
@@ -300,11 +308,12 @@ final class SentencesOfInstructions {
     }
 
     private static void narrowConstants() {
-        Sentence.of(14, KIND, "0x1b: the same with 32 bits: (0), (1, g 0), (5, g 0 or 32), shifts by W[24..20]: rd = SX(.., 32).");
+        Sentence.of(14, KIND, "0x1b: the same with 32 bits: (0), (1, g 0), (5, g 0 or 32), shifts by W[24..20]: rd = SX(..,"
+            + " 32).");
         long[][] rows = {{0, MAX32, 1, MIN32}, {0, MIN32, -1, MAX32}, {0, 0xffffffffL, 1, 0}, {0, 0x1234567800000000L, 0, 0},
-            {0, 0x80000000L, 0, MIN32}, {1, 1, 31, MIN32}, {1, 3, 31, MIN32}, {1, 0x80000000L, 1, 0}, {1, -1, 0, -1}, {5, -1, 1, MAX32},
-            {5, -1, 31, 1}, {5, 0x80000000L, 0, MIN32}, {5, MAX, 0, -1}, {5, 1L << 32, 0, 0}, {5, 0x80000000L, 0x400 | 31, -1},
-            {5, MAX32, 0x400 | 30, 1}, {5, 0x7fffffff80000000L, 0x400 | 4, -0x8000000}};
+            {0, 0x80000000L, 0, MIN32}, {1, 1, 31, MIN32}, {1, 3, 31, MIN32}, {1, 0x80000000L, 1, 0}, {1, -1, 0, -1},
+            {5, -1, 1, MAX32}, {5, -1, 31, 1}, {5, 0x80000000L, 0, MIN32}, {5, MAX, 0, -1}, {5, 1L << 32, 0, 0},
+            {5, 0x80000000L, 0x400 | 31, -1}, {5, MAX32, 0x400 | 30, 1}, {5, 0x7fffffff80000000L, 0x400 | 4, -0x8000000}};
         for (long[] row : rows) {
             dueConstant(0x1b, (int) row[0], row[1], (int) row[2], row[3]);
         }
@@ -320,13 +329,13 @@ final class SentencesOfInstructions {
     }
 
     private static void plain() {
-        Sentence.of(14, KIND, "0x33, g 0: (0) a + b, (1) a up by b[5..0], (2) a < b, (3) unsigned, (4) xor, (5) down with 0s, (6) or, (7)"
-            + " and;");
-        long[][] rows = {{0, MAX, 1, MIN}, {0, -1, -1, -2}, {0, MIN, MIN, 0}, {1, 1, 63, MIN}, {1, 1, 64, 1}, {1, 1, -1, MIN}, {1, 5, 0, 5},
-            {2, -1, 0, 1}, {2, 0, -1, 0}, {2, MIN, MAX, 1}, {2, MAX, MIN, 0}, {2, 7, 7, 0}, {3, 0, -1, 1}, {3, -1, 0, 0},
-            {3, MAX, MIN, 1}, {3, MIN, MAX, 0}, {3, 7, 7, 0}, {4, 0x0f0f, 0x00ff, 0x0ff0}, {4, -1, MIN, MAX}, {5, -1, 63, 1},
-            {5, -1, 64, -1}, {5, -1, -1, 1}, {5, MIN, 1, 1L << 62}, {6, 0x0f0f, 0x00ff, 0x0fff}, {6, MIN, MAX, -1},
-            {7, 0x0f0f, 0x00ff, 0x000f}, {7, MIN, MAX, 0}};
+        Sentence.of(14, KIND, "0x33, g 0: (0) a + b, (1) a up by b[5..0], (2) a < b, (3) unsigned, (4) xor, (5) down with 0s,"
+            + " (6) or, (7) and;");
+        long[][] rows = {{0, MAX, 1, MIN}, {0, -1, -1, -2}, {0, MIN, MIN, 0}, {1, 1, 63, MIN}, {1, 1, 64, 1}, {1, 1, -1, MIN},
+            {1, 5, 0, 5}, {2, -1, 0, 1}, {2, 0, -1, 0}, {2, MIN, MAX, 1}, {2, MAX, MIN, 0}, {2, 7, 7, 0}, {3, 0, -1, 1},
+            {3, -1, 0, 0}, {3, MAX, MIN, 1}, {3, MIN, MAX, 0}, {3, 7, 7, 0}, {4, 0x0f0f, 0x00ff, 0x0ff0}, {4, -1, MIN, MAX},
+            {5, -1, 63, 1}, {5, -1, 64, -1}, {5, -1, -1, 1}, {5, MIN, 1, 1L << 62}, {6, 0x0f0f, 0x00ff, 0x0fff},
+            {6, MIN, MAX, -1}, {7, 0x0f0f, 0x00ff, 0x000f}, {7, MIN, MAX, 0}};
         for (long[] row : rows) {
             due(0x33, (int) row[0], 0, row[1], row[2], row[3]);
         }
@@ -341,8 +350,8 @@ final class SentencesOfInstructions {
 
     private static void otherWay() {
         Sentence.of(14, KIND, "g 32: (0) a - b, (5) down with its highest bit;");
-        long[][] rows = {{0, MIN, 1, MAX}, {0, 0, MIN, MIN}, {0, 0, 1, -1}, {0, 5, 5, 0}, {5, MIN, 63, -1}, {5, MIN, 64, MIN}, {5, MIN, -1, -1},
-            {5, MAX, 62, 1}, {5, MAX, 63, 0}, {5, MIN, 1, 3L << 62}};
+        long[][] rows = {{0, MIN, 1, MAX}, {0, 0, MIN, MIN}, {0, 0, 1, -1}, {0, 5, 5, 0}, {5, MIN, 63, -1}, {5, MIN, 64, MIN},
+            {5, MIN, -1, -1}, {5, MAX, 62, 1}, {5, MAX, 63, 0}, {5, MIN, 1, 3L << 62}};
         for (long[] row : rows) {
             due(0x33, (int) row[0], 32, row[1], row[2], row[3]);
         }
@@ -352,48 +361,84 @@ final class SentencesOfInstructions {
     }
 
     private static void products() {
-        Sentence.of(14, KIND, "g 1: (0) a * b, (1) its upper 64 bits, (2) those of a signed, b unsigned, (3) both unsigned, (4) a / b"
-            + " towards 0 (by 0: -1; the least by -1: itself), (5) unsigned (by 0: all 1s), (6) the rest with a's sign (by 0: a; the"
-            + " least by -1: 0), (7) unsigned (by 0: a).");
-        long[][] rows = {{0, MAX, 2, -2}, {0, MIN, -1, MIN}, {0, -1, -1, 1}, {0, 1L << 32, 1L << 32, 0}, {1, MIN, MIN, 1L << 62},
-            {1, MAX, MAX, (1L << 62) - 1}, {1, MIN, MAX, -(1L << 62)}, {1, -1, 1, -1}, {1, -1, -1, 0}, {1, 0, -1, 0}, {1, 1L << 32, 1L << 32, 1},
-            {2, -1, -1, -1}, {2, MIN, -1, MIN}, {2, 1, -1, 0}, {2, 2, -1, 1}, {2, MIN, MIN, -(1L << 62)}, {2, 0, -1, 0}, {2, -1, 0, 0},
-            {2, -1, 1, -1}, {3, -1, -1, -2}, {3, MIN, 2, 1}, {3, MIN, MIN, 1L << 62}, {3, 0, -1, 0}, {3, -1, 1, 0},
-            {4, 7, 2, 3}, {4, -7, 2, -3}, {4, 7, -2, -3}, {4, -7, -2, 3}, {4, 7, 0, -1}, {4, -7, 0, -1}, {4, 0, 0, -1}, {4, MIN, 0, -1},
-            {4, MIN, -1, MIN}, {4, MAX, -1, -MAX}, {4, MIN, 1, MIN}, {4, 1, MIN, 0}, {4, MIN, MIN, 1}, {5, -1, 2, MAX}, {5, 7, 0, -1},
-            {5, 0, 0, -1}, {5, -1, 0, -1}, {5, -1, -1, 1}, {5, -2, -1, 0}, {5, MIN, -1, 0}, {5, MIN, MAX, 1}, {5, -1, MAX, 2}, {5, -1, 1, -1},
-            {5, -1, MIN, 1}, {5, MAX, MIN, 0}, {6, 7, 2, 1}, {6, -7, 2, -1}, {6, 7, -2, 1}, {6, -7, -2, -1}, {6, 7, 0, 7}, {6, -7, 0, -7},
-            {6, MIN, 0, MIN}, {6, 0, 0, 0}, {6, MIN, -1, 0}, {6, MIN, MAX, -1}, {6, MAX, MIN, MAX}, {7, -1, 10, 5}, {7, 7, 0, 7}, {7, -7, 0, -7},
-            {7, 0, 0, 0}, {7, -1, -1, 0}, {7, -2, -1, -2}, {7, MIN, -1, MIN}, {7, MIN, MAX, 1}, {7, -1, MIN, MAX}, {7, -1, MAX, 1}};
+        Sentence.of(14, KIND, "g 1: (0) a * b, (1) its upper 64 bits, (2) those of a signed, b unsigned, (3) both unsigned,");
+        long[][] rows = {{0, MAX, 2, -2}, {0, MIN, -1, MIN}, {0, -1, -1, 1}, {0, 1L << 32, 1L << 32, 0},
+            {1, MIN, MIN, 1L << 62}, {1, MAX, MAX, (1L << 62) - 1}, {1, MIN, MAX, -(1L << 62)}, {1, -1, 1, -1},
+            {1, -1, -1, 0}, {1, 0, -1, 0}, {1, -5, 0, 0}, {1, 5, 0, 0}, {1, 1L << 32, 1L << 32, 1}, {2, -1, -1, -1},
+            {2, MIN, -1, MIN}, {2, 1, -1, 0}, {2, 2, -1, 1}, {2, MIN, MIN, -(1L << 62)}, {2, 0, -1, 0}, {2, -1, 0, 0},
+            {2, 5, 0, 0}, {2, -1, 1, -1}, {3, -1, -1, -2}, {3, MIN, 2, 1}, {3, MIN, MIN, 1L << 62}, {3, 0, -1, 0},
+            {3, -1, 1, 0}};
+        for (long[] row : rows) {
+            due(0x33, (int) row[0], 1, row[1], row[2], row[3]);
+        }
+    }
+
+    private static void quotients() {
+        Sentence.of(14, KIND, "(4) a / b towards 0 (by 0: -1; the least by -1: itself),");
+        long[][] rows = {{4, 7, 2, 3}, {4, -7, 2, -3}, {4, 7, -2, -3}, {4, -7, -2, 3}, {4, 7, 0, -1}, {4, -7, 0, -1},
+            {4, 0, 0, -1}, {4, MIN, 0, -1}, {4, MIN, -1, MIN}, {4, MAX, -1, -MAX}, {4, MIN, 1, MIN}, {4, 1, MIN, 0},
+            {4, MIN, MIN, 1}};
+        for (long[] row : rows) {
+            due(0x33, (int) row[0], 1, row[1], row[2], row[3]);
+        }
+    }
+
+    private static void unsignedQuotients() {
+        Sentence.of(14, KIND, "(5) unsigned (by 0: all 1s),");
+        long[][] rows = {{5, -1, 2, MAX}, {5, 7, 2, 3}, {5, 7, 8, 0}, {5, 7, 0, -1}, {5, 0, 0, -1}, {5, -1, 0, -1},
+            {5, -1, -1, 1}, {5, -2, -1, 0}, {5, MIN, -1, 0}, {5, MIN, MAX, 1}, {5, -1, MAX, 2}, {5, -1, 1, -1},
+            {5, -1, MIN, 1}, {5, MAX, MIN, 0}};
+        for (long[] row : rows) {
+            due(0x33, (int) row[0], 1, row[1], row[2], row[3]);
+        }
+    }
+
+    private static void rests() {
+        Sentence.of(14, KIND, "(6) the rest with a's sign (by 0: a; the least by -1: 0),");
+        long[][] rows = {{6, 7, 2, 1}, {6, -7, 2, -1}, {6, 7, -2, 1}, {6, -7, -2, -1}, {6, 7, 0, 7}, {6, -7, 0, -7},
+            {6, MIN, 0, MIN}, {6, 0, 0, 0}, {6, MIN, -1, 0}, {6, MIN, MAX, -1}, {6, MAX, MIN, MAX}};
+        for (long[] row : rows) {
+            due(0x33, (int) row[0], 1, row[1], row[2], row[3]);
+        }
+    }
+
+    private static void unsignedRests() {
+        Sentence.of(14, KIND, "(7) unsigned (by 0: a).");
+        long[][] rows = {{7, -1, 10, 5}, {7, 7, 2, 1}, {7, 7, 1, 0}, {7, -1, 1, 0}, {7, 7, 0, 7}, {7, -7, 0, -7},
+            {7, 0, 0, 0}, {7, -1, -1, 0}, {7, -2, -1, -2}, {7, MIN, -1, MIN}, {7, MIN, MAX, 1}, {7, -1, MIN, MAX},
+            {7, -1, MAX, 1}};
         for (long[] row : rows) {
             due(0x33, (int) row[0], 1, row[1], row[2], row[3]);
         }
     }
 
     private static void narrow() {
-        Sentence.of(14, KIND, "0x3b: the same with 32 bits, shifts by b[4..0], rd = SX(.., 32): g 0: (0), (1), (5); g 32: (0), (5); g 1:"
-            + " (0), (4) to (7).");
-        long[][] sums = {{0, MAX32, 1, MIN32}, {0, 0xffffffffL, 1, 0}, {0, MIN32, MIN32, 0}, {1, 1, 31, MIN32}, {1, 1, 32, 1}, {1, 1, -1, MIN32},
-            {5, -1, 31, 1}, {5, -1, 32, -1}, {5, -1, -1, 1}, {5, 1L << 32, 0, 0}, {5, 0x80000000L, 64, MIN32}};
+        Sentence.of(14, KIND, "0x3b: the same with 32 bits, shifts by b[4..0], rd = SX(.., 32): g 0: (0), (1), (5); g 32:"
+            + " (0), (5); g 1: (0), (4) to (7).");
+        long[][] sums = {{0, MAX32, 1, MIN32}, {0, 0xffffffffL, 1, 0}, {0, MIN32, MIN32, 0}, {1, 1, 31, MIN32}, {1, 1, 32, 1},
+            {1, 1, -1, MIN32}, {5, -1, 31, 1}, {5, -1, 32, -1}, {5, -1, -1, 1}, {5, 1L << 32, 0, 0},
+            {5, 0x80000000L, 64, MIN32}};
         for (long[] row : sums) {
             due(0x3b, (int) row[0], 0, row[1], row[2], row[3]);
         }
-        long[][] others = {{0, MIN32, 1, MAX32}, {0, 0, MIN32, MIN32}, {0, 1L << 32, 1, -1}, {5, MIN32, 31, -1}, {5, 0x80000000L, 32, MIN32},
-            {5, MAX, 4, -1}, {5, MAX32, 30, 1}};
+        long[][] others = {{0, MIN32, 1, MAX32}, {0, 0, MIN32, MIN32}, {0, 1L << 32, 1, -1}, {5, MIN32, 31, -1},
+            {5, 0x80000000L, 32, MIN32}, {5, MAX, 4, -1}, {5, MAX32, 30, 1}};
         for (long[] row : others) {
             due(0x3b, (int) row[0], 32, row[1], row[2], row[3]);
         }
-        long[][] products = {{0, 0x10000, 0x10000, 0}, {0, 0x10000, 0x8000, MIN32}, {0, 0x100000003L, 5, 15}, {4, -7, 2, -3}, {4, 5, 0, -1},
-            {4, 5, 1L << 32, -1}, {4, MIN32, -1, MIN32}, {4, 0x80000000L, 0xffffffffL, MIN32}, {4, MIN32, 0, -1}, {5, -1, 1, -1},
-            {5, -1, 2, MAX32}, {5, 5, 0, -1}, {5, 5, 1L << 32, -1}, {5, MIN32, -1, 0}, {5, 0x1ffffffffL, 0xffffffffL, 1}, {6, -7, 2, -1},
-            {6, 7, -2, 1}, {6, 0x80000000L, 0, MIN32}, {6, 5, 1L << 32, 5}, {6, MIN32, -1, 0}, {7, -1, 16, 15}, {7, 0x80000000L, 0, MIN32},
-            {7, -2, -1, -2}, {7, MIN32, -1, MIN32}, {7, -1, MIN32, MAX32}};
+        long[][] products = {{0, 0x10000, 0x10000, 0}, {0, 0x10000, 0x8000, MIN32}, {0, 0x100000003L, 5, 15}, {4, -7, 2, -3},
+            {4, 5, 0, -1}, {4, 5, 1L << 32, -1}, {4, MIN32, -1, MIN32}, {4, 0x80000000L, 0xffffffffL, MIN32},
+            {4, MIN32, 0, -1}, {5, -1, 1, -1}, {5, -1, 2, MAX32}, {5, 5, 0, -1}, {5, 5, 1L << 32, -1}, {5, MIN32, -1, 0},
+            {5, 0x1ffffffffL, 0xffffffffL, 1}, {6, -7, 2, -1}, {6, 7, -2, 1}, {6, 0x80000000L, 0, MIN32}, {6, 5, 1L << 32, 5},
+            {6, MIN32, -1, 0}, {7, -1, 16, 15}, {7, 0x80000000L, 0, MIN32}, {7, -2, -1, -2}, {7, MIN32, -1, MIN32},
+            {7, -1, MIN32, MAX32}};
         for (long[] row : products) {
             due(0x3b, (int) row[0], 1, row[1], row[2], row[3]);
         }
         for (int g = 0; g < 128; g++) {
             for (int f = 0; f < 8; f++) {
-                boolean told = g == 0 && (f == 0 || f == 1 || f == 5) || g == 32 && (f == 0 || f == 5) || g == 1 && (f == 0 || f > 3);
+                boolean told = g == 0 && (f == 0 || f == 1 || f == 5) || g == 32 && (f == 0 || f == 5)
+                    || g == 1 && (f == 0 || f > 3);
                 if (!told) {
                     illegal(Code.r(0x3b, f, g, 5, 6, 7));
                 }
@@ -471,7 +516,8 @@ final class SentencesOfInstructions {
     }
 
     private static void storingReserved() {
-        Sentence.of(14, KIND, "3: b is stored and rd 0, if the reservation is this address and n, else rd 1; it goes in any case.");
+        Sentence.of(14, KIND, "3: b is stored and rd 0, if the reservation is this address and n, else rd 1; it goes in any"
+            + " case.");
         HartBoard x = Steps.board();
         storesReserved("without a reservation", x, 3, DATA, 1);
         for (int f = 2; f < 4; f++) {
@@ -500,8 +546,8 @@ final class SentencesOfInstructions {
     }
 
     private static void atomics() {
-        Sentence.of(14, KIND, "1, 0, 4, 12, 8, 16, 20, 24, 28: rd is read, and stored is b, the sum, xor, and, or, the lesser, the greater,"
-            + " those unsigned, of it and b (of n bytes).");
+        Sentence.of(14, KIND, "1, 0, 4, 12, 8, 16, 20, 24, 28: rd is read, and stored is b, the sum, xor, and, or, the"
+            + " lesser, the greater, those unsigned, of it and b (of n bytes).");
         int[] codes = {1, 0, 4, 12, 8, 16, 20, 24, 28};
         long[] values = {0, 1, -1, MIN, MAX, MIN32, MAX32, 0x80000000L, 0x1234567887654321L};
         for (long read : values) {
@@ -519,7 +565,8 @@ final class SentencesOfInstructions {
                         Steps.done("atomic", x, Code.atomic(codes[k], f, 5, 6, 7));
                         String what = codes[k] + ", f " + f + " of " + read + " and " + b;
                         Check.due(what + ": rd", x.get(5), p);
-                        Check.due(what + ": stored", x.peek(DATA), f == 2 ? read & -1L << 32 | stored[k] & 0xffffffffL : stored[k]);
+                        Check.due(what + ": stored", x.peek(DATA),
+                            f == 2 ? read & -1L << 32 | stored[k] & 0xffffffffL : stored[k]);
                     }
                 }
             }
@@ -572,7 +619,8 @@ final class SentencesOfInstructions {
                 x.raise(2, true);
                 Steps.stored(x, 2, Steps.priority(2), 1);
                 Steps.stored(x, 2, Steps.enable(0), 4);
-                long[] places = {Steps.COMPARE, Steps.TIME, Steps.SOFT, Steps.priority(2), f == 2 ? Steps.claim(0) : 0, Steps.LINE, END,
+                long[] places = {Steps.COMPARE, Steps.TIME, Steps.SOFT, Steps.priority(2), f == 2 ? Steps.claim(0) : 0,
+                    Steps.LINE, END,
                     RAM - 8, 0, -8};
                 for (long at : places) {
                     x.set(6, at);
@@ -650,8 +698,8 @@ final class SentencesOfInstructions {
     }
 
     private static void machineReturn() {
-        Sentence.of(14, KIND, "0x30200073 (privilege 3, else illegal): PC = MEPC, PRIVILEGE = MPP, MIE = MPIE, MPIE = 1, MPP = 0, MPRV = 0 if"
-            + " MPP was not 3;");
+        Sentence.of(14, KIND, "0x30200073 (privilege 3, else illegal): PC = MEPC, PRIVILEGE = MPP, MIE = MPIE, MPIE = 1, MPP"
+            + " = 0, MPRV = 0 if MPP was not 3;");
         for (int privilege : new int[] {0, 1}) {
             HartBoard x = Steps.board(privilege);
             x.order(Code.MEPC, DATA);
@@ -667,15 +715,16 @@ final class SentencesOfInstructions {
                 Steps.done("the return", x, Code.MRET);
                 Check.due("PC", x.get(32), DATA + 2);
                 Check.due("PRIVILEGE", x.look(0), mpp);
-                Check.due("MSTATUS", x.control(Code.MSTATUS), 10L << 32 | rest | 0x80 | (ie >> 1) << 3 | (mpp == 3 ? 1 << 17 : 0));
+                Check.due("MSTATUS", x.control(Code.MSTATUS),
+                    10L << 32 | rest | 0x80 | (ie >> 1) << 3 | (mpp == 3 ? 1 << 17 : 0));
                 Check.due("the reservation goes", x.look(7), 0);
             }
         }
     }
 
     private static void supervisorReturn() {
-        Sentence.of(14, KIND, "0x10200073 (privilege 3, or 1 without TSR): PC = SEPC, PRIVILEGE = SPP, SIE = SPIE, SPIE = 1, SPP = 0, MPRV = 0:"
-            + " the reservation goes with both;");
+        Sentence.of(14, KIND, "0x10200073 (privilege 3, or 1 without TSR): PC = SEPC, PRIVILEGE = SPP, SIE = SPIE, SPIE = 1,"
+            + " SPP = 0, MPRV = 0: the reservation goes with both;");
         for (int privilege : Steps.PRIVILEGES) {
             for (int tsr = 0; tsr < 2; tsr++) {
                 for (int bits = 0; bits < 8; bits++) {
@@ -692,7 +741,8 @@ final class SentencesOfInstructions {
                         Steps.done("the return at " + privilege, x, Code.SRET);
                         Check.due("PC", x.get(32), DATA + 2);
                         Check.due("PRIVILEGE", x.look(0), spp);
-                        Check.due("MSTATUS", x.control(Code.MSTATUS), 10L << 32 | rest & ~(1L << 17) | (bits >> 1 & 1) << 1 | 1 << 5);
+                        Check.due("MSTATUS", x.control(Code.MSTATUS),
+                            10L << 32 | rest & ~(1L << 17) | (bits >> 1 & 1) << 1 | 1 << 5);
                     }
                     Check.due("the reservation goes", x.look(7), 0);
                 }
@@ -749,8 +799,8 @@ final class SentencesOfInstructions {
     }
 
     private static void controls() {
-        Sentence.of(14, KIND, "f 1, 2, 3: rd = the control register W[31..20], it becomes a, or with a's bits, or without (2, 3: not written if"
-            + " rs1 is 0);");
+        Sentence.of(14, KIND, "f 1, 2, 3: rd = the control register W[31..20], it becomes a, or with a's bits, or without (2,"
+            + " 3: not written if rs1 is 0);");
         dueControl(1, 6, 0xf00f, 0xf00f);
         dueControl(1, 6, 0, 0);
         dueControl(1, 6, -1, -1);

@@ -253,6 +253,8 @@ final class SentencesOfMemory {
         Check.due("the lower half written", Steps.loaded(x, 3, Steps.COMPARE), 0xffffffff11223344L);
         Steps.stored(x, 2, Steps.COMPARE + 4, 0x55667788);
         Check.due("the upper half written", Steps.loaded(x, 3, Steps.COMPARE), 0x5566778811223344L);
+        Check.due("the lower half read", Steps.loaded(x, 2, Steps.COMPARE), 0x11223344);
+        Check.due("the upper half read", Steps.loaded(x, 2, Steps.COMPARE + 4), 0x55667788);
         Steps.stored(x, 3, Steps.COMPARE, -5);
         Check.due("all of it written", Steps.loaded(x, 3, Steps.COMPARE), -5);
         Steps.noAccess(x, 3, Steps.COMPARE + 8);
@@ -271,6 +273,7 @@ final class SentencesOfMemory {
         Steps.stored(x, 2, Steps.TIME, 0x80000000L);
         Check.due("the lower half written", Steps.loaded(x, 3, Steps.TIME), 0x8000000080000001L);
         Check.due("the lower half with its sign", Steps.loaded(x, 2, Steps.TIME), 0xffffffff80000002L);
+        Check.due("the upper half without one", Steps.loaded(x, 6, Steps.TIME + 4), 0x80000000L);
         Steps.stored(x, 3, Steps.TIME, 7);
         Check.due("all of it written", Steps.loaded(x, 3, Steps.TIME), 8);
         Steps.noAccess(x, 3, Steps.TIME + 8);
@@ -534,6 +537,11 @@ final class SentencesOfMemory {
                 Steps.loadTraps(y, f, device + Long.MIN_VALUE, 5);
             }
         }
+        HartBoard again = Steps.board();
+        Steps.storeTraps(again, 3, END, 7);
+        Steps.stored(again, 3, END - 8, 5);
+        Steps.loadTraps(again, 3, END, 5);
+        Check.due("a good access behind a fault", Steps.loaded(again, 3, END - 8), 5);
         // An aligned access never ends behind RAM: eight bytes that would are misaligned first, or asked by a call.
         HartBoard x = Steps.board();
         Steps.loadTraps(x, 3, END - 4, 4);
@@ -585,8 +593,8 @@ final class SentencesOfMemory {
     }
 
     private static void settling() {
-        Sentence.of(13, MEMORY, "After each step, and after each call that changes INPUT or a source: a source that is high, and not"
-            + " CLAIMED, becomes PENDING (it stays so until it is claimed).");
+        Sentence.of(13, MEMORY, "After each step, and after each call that changes INPUT or a source: a source that is high,"
+            + " and not CLAIMED, becomes PENDING (it stays so until it is claimed).");
         HartBoard x = withSource(5, 1, 0);
         Check.due("pending behind the call", x.look(9), 32);
         x.raise(5, false);
@@ -614,8 +622,8 @@ final class SentencesOfMemory {
     }
 
     private static void claiming() {
-        Sentence.of(14, MEMORY, "To read CLAIM of c: of the sources pending and enabled for c with a priority above 0 the one of the"
-            + " greatest priority, of several the least number: it is pending no more, and claimed; 0 without one.");
+        Sentence.of(14, MEMORY, "To read CLAIM of c: of the sources pending and enabled for c with a priority above 0 the one"
+            + " of the greatest priority, of several the least number: it is pending no more, and claimed; 0 without one.");
         HartBoard x = Steps.board();
         Check.due("without one", Steps.loaded(x, 2, Steps.claim(0)), 0);
         int[] priorities = {0, 0, 0, 3, 7, 7, 1, 7};
@@ -673,7 +681,8 @@ final class SentencesOfMemory {
         Steps.stored(x, 2, Steps.claim(1), 7);
         Check.due("7 is not enabled for 1", x.look(10), 0xfe);
         int claimed = 0xfe;
-        for (int s : new int[] {7, 2, 4}) {
+        Steps.stored(x, 2, Steps.enable(0), 0xfe);
+        for (int s : new int[] {7, 2, 4, 1}) {
             Steps.stored(x, 2, Steps.claim(0), s);
             claimed &= ~(1 << s);
             Check.due(s + " is claimed no more", x.look(10), claimed);
@@ -684,7 +693,8 @@ final class SentencesOfMemory {
     }
 
     private static void calling() {
-        Sentence.of(14, MEMORY, "Context c CALLS if a source is pending, enabled for c, and its priority is above c's threshold.");
+        Sentence.of(14, MEMORY, "Context c CALLS if a source is pending, enabled for c, and its priority is above c's"
+            + " threshold.");
         int[] bit = {0x800, 0x200};
         for (int c = 0; c < 2; c++) {
             for (int priority = 0; priority <= 7; priority++) {
@@ -696,6 +706,22 @@ final class SentencesOfMemory {
                         priority > threshold ? bit[c] : 0);
                 }
             }
+            for (int s = 2; s <= 7; s++) {
+                Check.due("source " + s, withSource(s, 1, c).control(Code.MIP), bit[c]);
+            }
+            HartBoard line = Steps.board();
+            Steps.stored(line, 0, Steps.LINE + 1, 1);
+            Steps.stored(line, 2, Steps.priority(1), 1);
+            Steps.stored(line, 2, Steps.enable(c), 2);
+            Check.due("source 1 without INPUT", line.control(Code.MIP), 0);
+            line.feed(1, 1);
+            line.type();
+            Check.due("source 1", line.control(Code.MIP), bit[c]);
+            HartBoard other = withSource(6, 2, c);
+            Steps.stored(other, 2, Steps.priority(5), 7);
+            Steps.stored(other, 2, Steps.enable(c), 0x60);
+            Steps.stored(other, 2, Steps.threshold(c), 2);
+            Check.due("the greater priority of a source that is not pending", other.control(Code.MIP), 0);
             HartBoard y = withSource(6, 7, c);
             Check.due("it calls", y.control(Code.MIP), bit[c]);
             Steps.stored(y, 2, Steps.enable(c), 0xbe);

@@ -56,8 +56,8 @@ final class SentencesOfPages {
     }
 
     private static void whetherTranslated() {
-        Sentence.of(15, STEP, "ADDRESSES are translated if SATP's MODE is 8 and the privilege is below 3 (for loads and stores: MPP's, if"
-            + " MPRV is 1).");
+        Sentence.of(15, STEP, "ADDRESSES are translated if SATP's MODE is 8 and the privilege is below 3 (for loads and"
+            + " stores: MPP's, if MPRV is 1).");
         long v = AT + 5;
         for (int privilege : Steps.PRIVILEGES) {
             HartBoard x = leaf(privilege, ALL | (privilege == 0 ? U : 0));
@@ -109,8 +109,8 @@ final class SentencesOfPages {
     }
 
     private static void entries() {
-        Sentence.of(15, STEP, "Then for level i = 2, 1, 0, from table T (ROOT * 4096 at first): entry E, 8 bytes at T + 8 * V[20 + 9 i .."
-            + " 12 + 9 i];");
+        Sentence.of(15, STEP, "Then for level i = 2, 1, 0, from table T (ROOT * 4096 at first): entry E, 8 bytes at T + 8 *"
+            + " V[20 + 9 i .. 12 + 9 i];");
         int[][] rows = {{0, 0, 0}, {255, 511, 511}, {511, 0, 511}, {256, 511, 0}, {1, 2, 3}, {128, 256, 64}};
         for (int[] row : rows) {
             HartBoard x = new HartBoard(16);
@@ -169,7 +169,8 @@ final class SentencesOfPages {
     }
 
     private static void brokenEntries() {
-        Sentence.of(15, STEP, "Page fault, if E's bit 0 (V) is 0, or bit 1 (R) is 0 and bit 2 (W) is 1, or E[63..54] is not 0.");
+        Sentence.of(15, STEP, "Page fault, if E's bit 0 (V) is 0, or bit 1 (R) is 0 and bit 2 (W) is 1, or E[63..54] is not"
+            + " 0.");
         breaks("bit 0 is 0", 0, 1);
         breaks("W without R", 4, 2);
         breaks("W and X without R", 12, 2);
@@ -181,8 +182,8 @@ final class SentencesOfPages {
     }
 
     private static void tables() {
-        Sentence.of(15, STEP, "If R and bit 3 (X) are both 0: page fault, if bit 4, 6 or 7 is 1, or i is 0; else T = E[53..10] * 4096, next"
-            + " level.");
+        Sentence.of(15, STEP, "If R and bit 3 (X) are both 0: page fault, if bit 4, 6 or 7 is 1, or i is 0; else T ="
+            + " E[53..10] * 4096, next level.");
         for (long table : new long[] {Pages.ROOT, Pages.MIDDLE}) {
             for (int flags = 0; flags < 1024; flags += 2) {
                 if ((flags & 0xe) == 0) {
@@ -340,8 +341,8 @@ final class SentencesOfPages {
     }
 
     private static void orderOfFaults() {
-        Sentence.of(14, STEP, "LOADS and STORES of n bytes at V: misaligned, if V is no multiple of n; then V is translated; then the"
-            + " access.");
+        Sentence.of(14, STEP, "LOADS and STORES of n bytes at V: misaligned, if V is no multiple of n; then V is translated;"
+            + " then the access.");
         HartBoard x = new Pages(3).leaf(0x30000000L, ALL).board();
         for (int f = 0; f < 4; f++) {
             int n = 1 << f;

@@ -94,8 +94,8 @@ final class SentencesOfSteps {
     }
 
     private static void counting() {
-        Sentence.of(14, STEP, "Behind the step, whatever it was, CYCLE and TIME are 1 more, RETIRED 1 more if an instruction was done"
-            + " (also what was written there in this step counts up).");
+        Sentence.of(14, STEP, "Behind the step, whatever it was, CYCLE and TIME are 1 more, RETIRED 1 more if an instruction"
+            + " was done (also what was written there in this step counts up).");
         HartBoard x = Steps.board();
         Steps.done("an instruction", x, NOP);
         dueCounts("done", x, 1, 1, 1);
@@ -128,8 +128,8 @@ final class SentencesOfSteps {
     }
 
     private static void ranks() {
-        Sentence.of(14, STEP, "An interrupt i (those that MIDELEG has not first, of these, then of the others, the first one of 11, 3,"
-            + " 7, 9, 1, 5 that holds)");
+        Sentence.of(14, STEP, "An interrupt i (those that MIDELEG has not first, of these, then of the others, the first one"
+            + " of 11, 3, 7, 9, 1, 5 that holds)");
         for (int k = 0; k < 8; k++) {
             long given = (k & 1) << 1 | (k >> 1 & 1) << 5 | (k >> 2 & 1) << 9;
             for (int first = 0; first < 6; first++) {
@@ -230,15 +230,16 @@ final class SentencesOfSteps {
     }
 
     private static void whereTrapsGo() {
-        Sentence.of(14, STEP, "A TRAP with CAUSE and VALUE goes to the supervisor if PRIVILEGE is below 3 and MEDELEG (for interrupts"
-            + " MIDELEG) has bit CAUSE, else to the machine.");
+        Sentence.of(14, STEP, "A TRAP with CAUSE and VALUE goes to the supervisor if PRIVILEGE is below 3 and MEDELEG (for"
+            + " interrupts MIDELEG) has bit CAUSE, else to the machine.");
         for (int privilege : Steps.PRIVILEGES) {
             for (long medeleg : new long[] {0, 4, ~4L, -1}) {
                 HartBoard x = trapping(privilege, medeleg);
                 x.order(Code.MIDELEG, ~medeleg);
                 x.step(1);
                 boolean there = privilege < 3 && (medeleg & 4) != 0;
-                Check.due("at " + privilege + " with MEDELEG " + medeleg, x.get(32), there ? Steps.TO_SUPERVISOR : Steps.TO_MACHINE);
+                Check.due("at " + privilege + " with MEDELEG " + medeleg, x.get(32),
+                    there ? Steps.TO_SUPERVISOR : Steps.TO_MACHINE);
                 Check.due("CAUSE of the machine", x.control(Code.MCAUSE), there ? 0 : 2);
                 Check.due("CAUSE of the supervisor", x.control(Code.SCAUSE), there ? 2 : 0);
             }
@@ -356,8 +357,8 @@ final class SentencesOfSteps {
     }
 
     private static void faults() {
-        Sentence.of(14, STEP, "CAUSES: 1, 5, 7 access fault (fetch, load, store), 12, 13, 15 page fault likewise, 4, 6 misaligned (load,"
-            + " store), VALUE the virtual address of the access (of a fetch: of its part of 2 bytes);");
+        Sentence.of(14, STEP, "CAUSES: 1, 5, 7 access fault (fetch, load, store), 12, 13, 15 page fault likewise, 4, 6"
+            + " misaligned (load, store), VALUE the virtual address of the access (of a fetch: of its part of 2 bytes);");
         HartBoard x = Steps.board();
         x.set(32, END);
         Steps.traps("a fetch", x, 1, END);
@@ -373,8 +374,8 @@ final class SentencesOfSteps {
         y.poke(RAM, 4, Code.load(0, 5, 6, 0));
         y.poke(RAM + 4, 4, Code.store(0, 5, 6, 0));
         y.poke(RAM + 4094, 2, 3);
-        long[][] rows = {{page + 4096, 0, 12, page + 4096}, {page + 4094, 0, 12, page + 4096}, {page, page + 4097, 13, page + 4097},
-            {page + 4, page + 4098, 15, page + 4098}};
+        long[][] rows = {{page + 4096, 0, 12, page + 4096}, {page + 4094, 0, 12, page + 4096},
+            {page, page + 4097, 13, page + 4097}, {page + 4, page + 4098, 15, page + 4098}};
         for (long[] row : rows) {
             y.lower(1);
             y.set(32, row[0]);
@@ -426,7 +427,8 @@ final class SentencesOfSteps {
     }
 
     private static void fetch() {
-        Sentence.of(14, STEP, "FETCH: 2 bytes at PC; if their lowest two bits are 3, 2 more at PC + 2, which are the upper half.");
+        Sentence.of(14, STEP, "FETCH: 2 bytes at PC; if their lowest two bits are 3, 2 more at PC + 2, which are the upper"
+            + " half.");
         HartBoard x = Steps.board();
         x.poke(RAM + 62, 2, 0x4505);
         x.poke(RAM + 64, 2, 0x4589);
@@ -462,7 +464,8 @@ final class SentencesOfSteps {
         HartBoard x = Steps.board();
         x.feed(4, 0x13);
         x.type();
-        long[] places = {0, Steps.SOFT, Steps.COMPARE, Steps.TIME, Steps.priority(2), Steps.claim(0), Steps.LINE, Steps.LINE + 4,
+        long[] places = {0, Steps.SOFT, Steps.COMPARE, Steps.TIME, Steps.priority(2), Steps.claim(0), Steps.LINE,
+            Steps.LINE + 4,
             RAM - 2, RAM - 4, END, -2, Long.MIN_VALUE, RAM + Long.MIN_VALUE, RAM + (1L << 32)};
         for (long pc : places) {
             x.set(32, pc);
