@@ -47,6 +47,7 @@ final class SentencesOfCalls {
         out();
         outOfNone();
         severalExceptions();
+        refusedCalls();
         ownMemory();
     }
 
@@ -212,8 +213,7 @@ final class SentencesOfCalls {
     }
 
     private static void poke() {
-        Sentence.of(6, "n bytes (1 .. 8) of v are written into RAM at a physical address, lowest first; the reservation"
-            + " stays.");
+        Sentence.of(6, "n bytes (1 .. 8) of v are written into RAM at a physical address, lowest first;");
         for (int n = 1; n <= 8; n++) {
             for (int at = 0; at < 8; at++) {
                 HartBoard x = new HartBoard(16);
@@ -234,6 +234,7 @@ final class SentencesOfCalls {
         x.lower(0);
         x.poke(RAM, 1, 3);
         Check.due("an address that is physical at any privilege", x.peek(RAM), 3);
+        Sentence.of(6, "the reservation stays.");
         HartBoard y = Steps.board();
         Steps.reserved(y, 3, Steps.DATA);
         y.poke(Steps.DATA, 8, 9);
@@ -306,22 +307,25 @@ final class SentencesOfCalls {
     }
 
     private static void set() {
-        Sentence.of(8, "A register (0 .. 31; 32 PC) becomes v (x0 stays 0; bit 0 of PC is 0).");
+        Sentence.of(8, "A register (0 .. 31; 32 PC) becomes v");
         HartBoard x = new HartBoard(16);
-        for (int k = 0; k <= 32; k++) {
-            x.set(k, -1L - 2 * k);
+        for (int k = 1; k <= 32; k++) {
+            x.set(k, -2L - 2 * k);
         }
-        Check.due("x0", x.get(0), 0);
-        for (int k = 1; k < 32; k++) {
-            Check.due("x" + k, x.get(k), -1L - 2 * k);
+        for (int k = 1; k <= 32; k++) {
+            Check.due("register " + k, x.get(k), -2L - 2 * k);
         }
-        Check.due("PC without bit 0", x.get(32), -66);
-        x.set(32, 1);
-        Check.due("PC of 1", x.get(32), 0);
-        x.set(32, Long.MAX_VALUE);
-        Check.due("PC of the greatest", x.get(32), Long.MAX_VALUE - 1);
         x.set(31, Long.MIN_VALUE);
         Check.due("x31 of the least", x.get(31), Long.MIN_VALUE);
+        x.set(1, Long.MAX_VALUE);
+        Check.due("x1 of the greatest", x.get(1), Long.MAX_VALUE);
+        Sentence.of(8, "(x0 stays 0; bit 0 of PC is 0).");
+        for (long v : new long[] {1, -1, 2, Long.MIN_VALUE, Long.MAX_VALUE, RAM + 1}) {
+            x.set(0, v);
+            Check.due("x0 of " + v, x.get(0), 0);
+            x.set(32, v);
+            Check.due("PC of " + v, x.get(32), v & ~1L);
+        }
     }
 
     private static void setOfNone() {
@@ -358,12 +362,19 @@ final class SentencesOfCalls {
     }
 
     private static void lower() {
-        Sentence.of(10, "PRIVILEGE becomes p (the reservation stays, as with order()).");
+        Sentence.of(10, "PRIVILEGE becomes p");
+        HartBoard low = Steps.board();
+        for (int p : new int[] {0, 3, 1, 0, 1, 3}) {
+            low.lower(p);
+            Check.due("PRIVILEGE", low.look(0), p);
+        }
+        low.lower(0);
+        Steps.illegal(low, Code.control(2, 5, 0xc00, 0));
+        Sentence.of(10, "(the reservation stays, as with order()).");
         HartBoard x = Steps.board();
         Steps.reserved(x, 3, Steps.DATA);
         for (int p : new int[] {0, 3, 1, 0, 1, 3}) {
             x.lower(p);
-            Check.due("PRIVILEGE", x.look(0), p);
             Check.due("the reservation stays", x.look(7), 8);
         }
         for (int number : NUMBERS) {
@@ -371,10 +382,8 @@ final class SentencesOfCalls {
             x.order(number, 0);
         }
         Check.due("it stays with order()", x.look(7), 8);
-        x.lower(0);
-        x.order(0x306, 0);
-        Code.begin(x, RAM, Code.control(2, 5, 0xc00, 0));
-        Check.due("the lower privilege counts", x.step(1), 0);
+        Steps.done("a store of what was reserved", x, Code.atomic(3, 3, 5, 6, 0));
+        Check.due("it is the same reservation", x.get(5), 0);
     }
 
     private static void lowerToNone() {
@@ -548,7 +557,7 @@ final class SentencesOfCalls {
 
     private static void translate() {
         Sentence.of(15, "Where an address would be translated to for a kind of access (0 fetch, 1 load, 2 store) as things"
-            + " are: the physical address; -1 - CAUSE when that faults.");
+            + " are: the physical address;");
         HartBoard x = Steps.board(1);
         long root = RAM + 0x4000;
         x.order(Code.SATP, 8L << 60 | root / 4096);
@@ -557,11 +566,15 @@ final class SentencesOfCalls {
         for (int k = 0; k < 3; k++) {
             x.poke(root + 8 * k, 8, (long) (k + 2) << 28 | flags[k]);
         }
-        long[][] due = {{2L << 30 | 5, -14, -16}, {-13, 3L << 30 | 5, -16}, {-13, 4L << 30 | 5, 4L << 30 | 5}};
-        for (int k = 0; k < 3; k++) {
-            for (int kind = 0; kind < 3; kind++) {
-                Check.due("page " + k + ", kind " + kind, x.translate((long) k << 30 | 5, kind), due[k][kind]);
-            }
+        Check.due("a fetch", x.translate(5, 0), 2L << 30 | 5);
+        Check.due("a load", x.translate(1L << 30, 1), 3L << 30);
+        Check.due("another load", x.translate((3L << 30) - 1, 1), (5L << 30) - 1);
+        Check.due("a store", x.translate(2L << 30 | 5, 2), 4L << 30 | 5);
+        Sentence.of(15, "-1 - CAUSE when that faults.");
+        long[][] faults = {{0, 1, -14}, {0, 2, -16}, {1, 0, -13}, {1, 2, -16}, {2, 0, -13}, {3, 0, -13}, {3, 1, -14},
+            {3, 2, -16}};
+        for (long[] row : faults) {
+            Check.due("page " + row[0] + ", kind " + row[1], x.translate(row[0] << 30 | 5, (int) row[1]), row[2]);
         }
         x.order(Code.SATP, 8L << 60);
         for (int kind = 0; kind < 3; kind++) {
@@ -572,24 +585,21 @@ final class SentencesOfCalls {
     }
 
     private static void translateWithout() {
-        Sentence.of(15, "(What is there is not asked; without translation the address itself, whatever it is, also one that"
-            + " looks like a fault.)");
+        Sentence.of(15, "(What is there is not asked;");
         HartBoard x = Steps.board(1);
-        long[] addresses = {0, 1, -1, -2, -6, -8, -13, -14, -16, Long.MIN_VALUE, Long.MAX_VALUE, RAM, END, Steps.LINE};
-        for (long v : addresses) {
-            for (int kind = 0; kind < 3; kind++) {
-                Check.due("MODE 0, " + v, x.translate(v, kind), v);
-            }
-        }
         long root = RAM + 0x4000;
         x.poke(root, 8, 0x30L << 28 | 0xcf);
         x.order(Code.SATP, 8L << 60 | root / 4096);
         for (int kind = 0; kind < 3; kind++) {
             Check.due("a place where nothing is", x.translate(7, kind), 0x30L << 30 | 7);
         }
+        Sentence.of(15, "without translation the address itself, whatever it is, also one that looks like a fault.)");
+        long[] addresses = {0, 1, -1, -2, -6, -8, -13, -14, -16, Long.MIN_VALUE, Long.MAX_VALUE, RAM, END, Steps.LINE};
+        HartBoard y = Steps.board(1);
         x.lower(3);
         for (long v : addresses) {
             for (int kind = 0; kind < 3; kind++) {
+                Check.due("MODE 0, " + v, y.translate(v, kind), v);
                 Check.due("privilege 3, " + v, x.translate(v, kind), v);
             }
         }
@@ -637,23 +647,36 @@ final class SentencesOfCalls {
         return x;
     }
 
-    private static void look() {
-        Sentence.of(16, "0 PRIVILEGE, 1 bytes of INPUT that are left, 2 bytes of OUTPUT, 3 traps since the beginning (without"
-            + " interrupts), 4 interrupts taken, 5 the CAUSE of the latest of both (-1 before; of an interrupt 64 + i), 6"
-            + " bytes of the tape, 7 the size of the reservation (0 for none), 8 PAGES, 9 pending sources (bit s), 10 claimed"
-            + " ones.");
+    /** What look answers for these at first, and on the board that is busy. */
+    private static void dueLooks(int from, int to) {
         int[] first = {3, 0, 0, 0, 0, -1, 0, 0, 16, 0, 0};
         int[] later = {1, 7, 2, 2, 4, 64 + 5, 5, 4, 33, 1 << 2, 1 << 7};
-        HartBoard fresh = new HartBoard(16);
-        HartBoard x = busy();
-        for (int what = 0; what <= 10; what++) {
-            Check.due("look(" + what + ") at first", fresh.look(what), first[what]);
-            Check.due("look(" + what + ") later", x.look(what), later[what]);
+        for (int what = from; what <= to; what++) {
+            Check.due("look(" + what + ") at first", new HartBoard(16).look(what), first[what]);
+            Check.due("look(" + what + ") later", busy().look(what), later[what]);
         }
+    }
+
+    private static void look() {
+        Sentence.of(16, "0 PRIVILEGE, 1 bytes of INPUT that are left, 2 bytes of OUTPUT,");
+        dueLooks(0, 2);
+        Sentence.of(16, "3 traps since the beginning (without interrupts), 4 interrupts taken,");
+        dueLooks(3, 4);
+        Sentence.of(16, "5 the CAUSE of the latest of both (-1 before; of an interrupt 64 + i),");
+        dueLooks(5, 5);
+        HartBoard x = busy();
         x.lower(3);
         Steps.illegal(x, 0);
         Check.due("the CAUSE of a trap behind an interrupt", x.look(5), 2);
-        Check.due("no reservation", x.look(7), 0);
+        Sentence.of(16, "6 bytes of the tape,");
+        dueLooks(6, 6);
+        Sentence.of(16, "7 the size of the reservation (0 for none),");
+        dueLooks(7, 7);
+        Check.due("none behind a trap", x.look(7), 0);
+        Steps.reserved(x, 3, Steps.DATA);
+        Check.due("of eight", x.look(7), 8);
+        Sentence.of(16, "8 PAGES, 9 pending sources (bit s), 10 claimed ones.");
+        dueLooks(8, 10);
     }
 
     private static void lookOfNone() {
@@ -718,21 +741,23 @@ final class SentencesOfCalls {
     }
 
     private static void severalExceptions() {
-        Sentence.of(14, "Of several exceptions", "Of several exceptions that hold the one listed first is thrown; a call"
-            + " that throws"
-            + " changes nothing.");
+        Sentence.of(6, "Of several exceptions", "Of several exceptions that hold the one listed first is thrown;");
         HartBoard full = withTape(65536);
         Check.dueIllegalArgument("a feed of 9 onto a full tape", () -> full.feed(9, 1));
         Check.dueIllegalArgument("a feed of 0 onto a full tape", () -> full.feed(0, 1));
-        Check.dueIllegalArgument("a poke of 9 outside of RAM", () -> full.poke(0, 9, 1));
-        Check.dueIllegalArgument("a poke of 0 outside of RAM", () -> full.poke(END, 0, 1));
+        HartBoard x = new HartBoard(16);
+        Check.dueIllegalArgument("a poke of 9 outside of RAM", () -> x.poke(0, 9, 1));
+        Check.dueIllegalArgument("a poke of 0 outside of RAM", () -> x.poke(END, 0, 1));
+    }
+
+    private static void refusedCalls() {
+        Sentence.of(14, "Of several exceptions", "a call that throws changes nothing.");
         long end = RAM + 33 * 4096;
         Refused[] calls = {x -> x.feed(0, -1), x -> x.feed(9, -1), x -> x.poke(RAM, 0, -1), x -> x.poke(RAM, 9, -1),
             x -> x.poke(end - 1, 2, -1), x -> x.poke(end - 7, 8, -1), x -> x.poke(RAM - 1, 2, -1), x -> x.peek(end - 7),
-            x -> x.set(-1, 9), x -> x.set(33, 9), x -> x.get(33), x -> x.lower(2), x -> x.control(0x307), x -> x.order(0x307,
-                -1),
-            x -> x.raise(1, true), x -> x.raise(8, true), x -> x.raise(0, false), x -> x.step(-1), x -> x.step(4097),
-            x -> x.translate(0, 3), x -> x.look(11), x -> x.out(2), x -> x.out(-1)};
+            x -> x.set(-1, 9), x -> x.set(33, 9), x -> x.get(33), x -> x.lower(2), x -> x.control(0x307),
+            x -> x.order(0x307, -1), x -> x.raise(1, true), x -> x.raise(8, true), x -> x.raise(0, false), x -> x.step(-1),
+            x -> x.step(4097), x -> x.translate(0, 3), x -> x.look(11), x -> x.out(2), x -> x.out(-1)};
         for (int k = 0; k < calls.length; k++) {
             HartBoard x = busy();
             String before = state(x);

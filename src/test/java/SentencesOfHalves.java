@@ -314,27 +314,34 @@ final class SentencesOfHalves {
     }
 
     private static void computing() {
-        Sentence.of(14, KIND, "1, 4: by H[11..10]: 0 r' down with 0s by u6, 1 with its highest bit, 2 r' and i6, 3: with"
-            + " H[12] 0, by H[6..5]: r' - s', xor, or, and; with H[12] 1: 0 SX(r' - s', 32), 1 SX(r' + s', 32).");
-        for (int k : new int[] {0, 4, 7}) {
+        Sentence.of(14, KIND, "1, 4: by H[11..10]: 0 r' down with 0s by u6, 1 with its highest bit, 2 r' and i6,");
+        for (int k = 0; k < 8; k++) {
             long a = value(8 + k);
             for (int v : SIX_BITS) {
                 due("down with 0s", kind(1, 4) | k << 7 | six(v), 8 + k, a >>> (v & 63));
                 due("down with its highest bit", kind(1, 4) | 1 << 10 | k << 7 | six(v), 8 + k, a >> (v & 63));
                 due("and", kind(1, 4) | 2 << 10 | k << 7 | six(v), 8 + k, a & v);
             }
-            for (int j : new int[] {0, 3, 4, 7}) {
-                long b = value(8 + j);
-                int h = kind(1, 4) | 3 << 10 | k << 7 | j << 2;
-                due("a difference", h, 8 + k, a - b);
-                due("xor", h | 1 << 5, 8 + k, a ^ b);
-                due("or", h | 2 << 5, 8 + k, a | b);
-                due("and", h | 3 << 5, 8 + k, a & b);
-                due("a difference of 32 bits", h | 1 << 12, 8 + k, (int) (a - b));
-                due("a sum of 32 bits", h | 1 << 12 | 1 << 5, 8 + k, (int) (a + b));
-                illegal(h | 1 << 12 | 2 << 5);
-                illegal(h | 1 << 12 | 3 << 5);
-            }
+        }
+        Sentence.of(14, KIND, "3: with H[12] 0, by H[6..5]: r' - s', xor, or, and;");
+        for (int pair = 0; pair < 64; pair++) {
+            long a = value(8 + pair / 8);
+            long b = value(8 + pair % 8);
+            int h = kind(1, 4) | 3 << 10 | pair / 8 << 7 | pair % 8 << 2;
+            due("a difference", h, 8 + pair / 8, a - b);
+            due("xor", h | 1 << 5, 8 + pair / 8, a ^ b);
+            due("or", h | 2 << 5, 8 + pair / 8, a | b);
+            due("and", h | 3 << 5, 8 + pair / 8, a & b);
+        }
+        Sentence.of(14, KIND, "with H[12] 1: 0 SX(r' - s', 32), 1 SX(r' + s', 32).");
+        for (int pair = 0; pair < 64; pair++) {
+            long a = value(8 + pair / 8);
+            long b = value(8 + pair % 8);
+            int h = kind(1, 4) | 1 << 12 | 3 << 10 | pair / 8 << 7 | pair % 8 << 2;
+            due("a difference of 32 bits", h, 8 + pair / 8, (int) (a - b));
+            due("a sum of 32 bits", h | 1 << 5, 8 + pair / 8, (int) (a + b));
+            illegal(h | 2 << 5);
+            illegal(h | 3 << 5);
         }
     }
 

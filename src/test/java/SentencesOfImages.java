@@ -248,7 +248,7 @@ final class SentencesOfImages {
     }
 
     private static void bytesOutside() {
-        Sentence.of(4, IMAGES, "6 its bytes do not lie in the tape (with none: OFFSET is above its size);");
+        Sentence.of(4, IMAGES, "6 its bytes do not lie in the tape");
         good().row(0, 120, RAM, 16, 24).due("up to the end", 0);
         good().row(0, 121, RAM, 16, 24).due("one byte further", 6);
         good().row(0, 120, RAM, 17, 24).due("one byte more", 6);
@@ -256,35 +256,35 @@ final class SentencesOfImages {
         good().row(0, 0, RAM, 137, 137).due("more than all of it", 6);
         good().row(0, 135, RAM, 1, 1).due("its last byte", 0);
         good().row(0, 136, RAM, 1, 1).due("the byte behind it", 6);
-        good().row(0, 136, RAM, 0, 24).due("none at the very end", 0);
-        good().row(0, 137, RAM, 0, 24).due("none behind it", 6);
-        for (long v : new long[] {-1, -16, Long.MIN_VALUE, Long.MAX_VALUE, 1L << 32, 120 | 1L << 32, 120 | 1L << 63}) {
+        long[] far = {-1, -16, Long.MIN_VALUE, Long.MAX_VALUE, 1L << 32, 120 | 1L << 32, 120 | 1L << 63};
+        for (long v : far) {
             good().row(0, v, RAM, 16, 24).due("OFFSET " + v, 6);
-            good().row(0, v, RAM, 0, 24).due("OFFSET " + v + " of none", 6);
             good().row(0, 120, RAM, v, v).due("a size of " + v, 6);
         }
         good().row(0, -8, RAM, 16, 24).due("around the end of numbers", 6);
         good().row(0, 120, RAM, -120, 24).due("a size around the end of numbers", 6);
         good().row(0, 137, 0, 16, 15).due("before 7 and 8", 6);
+        Sentence.of(4, IMAGES, "(with none: OFFSET is above its size);");
+        good().row(0, 0, RAM, 0, 24).due("none at its begin", 0);
+        good().row(0, 136, RAM, 0, 24).due("none at its very end", 0);
+        good().row(0, 137, RAM, 0, 24).due("none behind it", 6);
+        good().row(0, 137, 0, 0, 0).due("none behind it, before 7", 6);
+        for (long v : far) {
+            good().row(0, v, RAM, 0, 24).due("OFFSET " + v + " of none", 6);
+        }
     }
 
     private static void memoryOutside() {
-        Sentence.of(4, IMAGES, "7 its memory does not lie in RAM (with none: ADDRESS is neither in RAM nor its very end);");
+        Sentence.of(4, IMAGES, "7 its memory does not lie in RAM");
         good().row(0, 120, END - 24, 16, 24).due("up to the end", 0);
         good().row(0, 120, END - 23, 16, 24).due("one byte further", 7);
         good().row(0, 120, END - 24, 16, 25).due("one byte more", 7);
         good().row(0, 120, RAM - 1, 16, 24).due("one byte before", 7);
         good().row(0, 120, RAM, 16, 65536).due("all of RAM", 0);
         good().row(0, 120, RAM, 16, 65537).due("more than all of it", 7);
-        good().row(0, 120, RAM, 0, 0).due("none at the begin", 0);
-        good().row(0, 120, RAM - 1, 0, 0).due("none before it", 7);
-        good().row(0, 120, END - 1, 0, 0).due("none in RAM", 0);
-        good().row(0, 120, END, 0, 0).due("none at the very end", 0);
-        good().row(0, 120, END + 1, 0, 0).due("none behind it", 7);
-        good().row(0, 120, 0, 0, 0).due("none at 0", 7);
-        for (long v : new long[] {0, -1, -24, Long.MIN_VALUE, Long.MAX_VALUE, RAM + Long.MIN_VALUE, RAM + (1L << 32), -RAM}) {
+        long[] far = {0, -1, -24, Long.MIN_VALUE, Long.MAX_VALUE, RAM + Long.MIN_VALUE, RAM + (1L << 32), -RAM};
+        for (long v : far) {
             good().row(0, 120, v, 16, 24).due("ADDRESS " + v, 7);
-            good().row(0, 120, v, 0, 0).due("ADDRESS " + v + " of none", 7);
         }
         for (long v : new long[] {-1, -8, Long.MIN_VALUE, Long.MAX_VALUE, 24 | 1L << 32, -RAM}) {
             good().row(0, 120, RAM + 8, 16, v).due("a size of " + v, 7);
@@ -293,6 +293,16 @@ final class SentencesOfImages {
         HartBoard large = new HartBoard(64);
         Code.feed(large, good().row(0, 120, RAM + 64 * 4096 - 24, 16, 24).bytes);
         Check.due("the end of 64 pages", large.load(), 0);
+        Sentence.of(4, IMAGES, "(with none: ADDRESS is neither in RAM nor its very end);");
+        good().row(0, 120, RAM, 0, 0).due("none at the begin", 0);
+        good().row(0, 120, RAM - 1, 0, 0).due("none before it", 7);
+        good().row(0, 120, END - 1, 0, 0).due("none in RAM", 0);
+        good().row(0, 120, END, 0, 0).due("none at the very end", 0);
+        good().row(0, 120, END + 1, 0, 0).due("none behind it", 7);
+        good().row(0, 120, END + 1, 1, 0).due("none behind it, before 8", 7);
+        for (long v : far) {
+            good().row(0, 120, v, 0, 0).due("ADDRESS " + v + " of none", 7);
+        }
     }
 
     private static void tooGreat() {
@@ -306,14 +316,16 @@ final class SentencesOfImages {
     }
 
     private static void wrongEntry() {
-        Sentence.of(4, IMAGES, "9 (at last) ENTRY is not in RAM, or odd.");
-        for (long entry : new long[] {RAM + 1, END - 1, RAM - 2, RAM - 1, END, END + 2, 0, -2, -1, RAM + Long.MIN_VALUE,
-            RAM + (1L << 32),
-            Long.MIN_VALUE}) {
+        Sentence.of(4, IMAGES, "9 (at last) ENTRY is not in RAM,");
+        for (long entry : new long[] {RAM - 2, END, END + 2, 0, -2, RAM + Long.MIN_VALUE, RAM + (1L << 32), Long.MIN_VALUE}) {
             good().put(24, 8, entry).due("ENTRY " + Steps.hex(entry), 9);
         }
         for (long entry : new long[] {RAM, RAM + 2, END - 2}) {
             good().put(24, 8, entry).due("ENTRY " + Steps.hex(entry), 0);
+        }
+        Sentence.of(4, IMAGES, "or odd.");
+        for (long entry : new long[] {RAM + 1, RAM + 3, END - 1, RAM - 1, END + 1, 1, -1}) {
+            good().put(24, 8, entry).due("ENTRY " + Steps.hex(entry), 9);
         }
     }
 

@@ -27,6 +27,7 @@ final class SentencesOfInstructions {
         loads();
         stores();
         constants();
+        shiftConstants();
         narrowConstants();
         plain();
         otherWay();
@@ -288,14 +289,22 @@ final class SentencesOfInstructions {
     }
 
     private static void constants() {
-        Sentence.of(14, KIND, "0x13: rd = (0) a + I, (2) a < I (1 or 0), (3) unsigned, (4) a xor I, (6) or, (7) and, (1)"
-            + " W[31..26] 0: a shifted up by W[25..20], (5) down with 0s, with W[31..26] 16: with its highest bit.");
+        Sentence.of(14, KIND, "0x13: rd = (0) a + I, (2) a < I (1 or 0), (3) unsigned, (4) a xor I, (6) or, (7) and,");
         long[][] rows = {{0, MAX, 1, MIN}, {0, MIN, -1, MAX}, {2, -1, 0, 1}, {2, 0, -1, 0}, {2, -1, -1, 0},
             {2, MIN, -2048, 1}, {3, 0, -1, 1}, {3, -1, -1, 0}, {3, -2, -1, 1}, {3, 5, 5, 0}, {3, 4, 5, 1}, {3, -1, 5, 0},
             {4, 0x55, -1, ~0x55L}, {4, -1, 2047, -2048}, {6, 0x55, -2048, -2048 | 0x55}, {6, 0x800, 1, 0x801},
-            {7, -1, -2048, -2048}, {7, 0xff, 0x55, 0x55}, {1, 1, 0, 1}, {1, 1, 63, MIN}, {1, 3, 63, MIN},
-            {1, -1, 32, -1L << 32}, {5, MIN, 63, 1}, {5, -1, 0, -1}, {5, -1, 32, 0xffffffffL}, {5, MIN, 0x400 | 63, -1},
-            {5, MIN, 0x400, MIN}, {5, MAX, 0x400 | 62, 1}, {5, -1, 0x400 | 32, -1}};
+            {7, -1, -2048, -2048}, {7, 0xff, 0x55, 0x55}};
+        for (long[] row : rows) {
+            dueConstant(0x13, (int) row[0], row[1], (int) row[2], row[3]);
+        }
+    }
+
+    private static void shiftConstants() {
+        Sentence.of(14, KIND, "(1) W[31..26] 0: a shifted up by W[25..20], (5) down with 0s, with W[31..26] 16: with its"
+            + " highest bit.");
+        long[][] rows = {{1, 1, 0, 1}, {1, 1, 63, MIN}, {1, 3, 63, MIN}, {1, -1, 32, -1L << 32}, {5, MIN, 63, 1},
+            {5, -1, 0, -1}, {5, -1, 32, 0xffffffffL}, {5, MIN, 0x400 | 63, -1}, {5, MIN, 0x400, MIN}, {5, MAX, 0x400 | 62, 1},
+            {5, -1, 0x400 | 32, -1}};
         for (long[] row : rows) {
             dueConstant(0x13, (int) row[0], row[1], (int) row[2], row[3]);
         }

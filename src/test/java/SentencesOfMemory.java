@@ -434,22 +434,32 @@ final class SentencesOfMemory {
     }
 
     private static void input() {
-        Sentence.of(5, MEMORY, "0: read, the next byte of INPUT, which goes (0 without one);");
+        Sentence.of(5, MEMORY, "0: read, the next byte of INPUT, which goes");
         HartBoard x = Steps.board();
-        Check.due("without INPUT", Steps.loaded(x, 4, Steps.LINE), 0);
-        Check.due("none is left", x.look(1), 0);
         x.feed(3, 0xff8001);
         x.type();
-        int[] want = {1, 0x80, 0xff, 0, 0};
+        int[] want = {1, 0x80, 0xff};
         for (int k = 0; k < want.length; k++) {
             Check.due("byte " + k, Steps.loaded(x, 4, Steps.LINE), want[k]);
-            Check.due("bytes left", x.look(1), Math.max(0, 2 - k));
+            Check.due("bytes left", x.look(1), 2 - k);
         }
         x.feed(1, 5);
         x.type();
         x.set(6, Steps.LINE);
         Steps.trapsOf("a load of 2", x, Code.load(1, 5, 6, 0), 5, Steps.LINE);
         Check.due("a trap takes none", x.look(1), 1);
+        Steps.done("a load into x0", x, Code.load(4, 0, 6, 0));
+        Check.due("takes one", x.look(1), 0);
+        Sentence.of(5, MEMORY, "(0 without one);");
+        for (int k = 0; k < 3; k++) {
+            x.set(5, -1);
+            Check.due("behind the last byte", Steps.loaded(x, 4, Steps.LINE), 0);
+            Check.due("none is left", x.look(1), 0);
+        }
+        Check.due("of a new board", Steps.loaded(Steps.board(), 0, Steps.LINE), 0);
+        x.feed(1, 7);
+        x.type();
+        Check.due("a byte that comes later", Steps.loaded(x, 4, Steps.LINE), 7);
     }
 
     private static void output() {
@@ -594,17 +604,16 @@ final class SentencesOfMemory {
 
     private static void settling() {
         Sentence.of(13, MEMORY, "After each step, and after each call that changes INPUT or a source: a source that is high,"
-            + " and not CLAIMED, becomes PENDING (it stays so until it is claimed).");
+            + " and not CLAIMED, becomes PENDING");
         HartBoard x = withSource(5, 1, 0);
         Check.due("pending behind the call", x.look(9), 32);
-        x.raise(5, false);
-        Check.due("it stays so", x.look(9), 32);
-        x.raise(5, true);
         Check.due("it is claimed", Steps.loaded(x, 2, Steps.claim(0)), 5);
         Check.due("high and claimed, it is not pending", x.look(9), 0);
         x.raise(5, false);
         x.raise(5, true);
         Check.due("nor when it is set again", x.look(9), 0);
+        Steps.illegal(x, 0);
+        Check.due("nor behind a trap", x.look(9), 0);
         Steps.stored(x, 2, Steps.claim(0), 5);
         Check.due("pending behind the step that ends the claim", x.look(9), 32);
         HartBoard y = Steps.board();
@@ -612,47 +621,73 @@ final class SentencesOfMemory {
         y.type();
         Steps.stored(y, 0, Steps.LINE + 1, 1);
         Check.due("pending behind the step that enables", y.look(9), 2);
+        HartBoard z = Steps.board();
+        Steps.stored(z, 0, Steps.LINE + 1, 1);
+        z.feed(1, 5);
+        z.type();
+        Check.due("pending behind the call that brings INPUT", z.look(9), 2);
+        Sentence.of(13, MEMORY, "(it stays so until it is claimed).");
+        x.raise(5, false);
+        Check.due("low, it stays so", x.look(9), 32);
+        x.step(3);
+        Check.due("behind steps, too", x.look(9), 32);
+        Check.due("it is claimed", Steps.loaded(x, 2, Steps.claim(0)), 5);
+        Check.due("then no more", x.look(9), 0);
         Steps.loaded(y, 4, Steps.LINE);
         Check.due("it stays so without INPUT", y.look(9), 2);
-        HartBoard z = withSource(4, 1, 0);
-        Check.due("it is claimed", Steps.loaded(z, 2, Steps.claim(0)), 4);
-        Steps.stored(z, 2, Steps.enable(0), 0);
-        Steps.illegal(z, 0);
-        Check.due("nor behind a trap while claimed", z.look(9), 0);
+        Steps.stored(y, 0, Steps.LINE + 1, 0);
+        Check.due("and without ENABLE", y.look(9), 2);
     }
 
     private static void claiming() {
         Sentence.of(14, MEMORY, "To read CLAIM of c: of the sources pending and enabled for c with a priority above 0 the one"
-            + " of the greatest priority, of several the least number: it is pending no more, and claimed; 0 without one.");
+            + " of the greatest priority,");
         HartBoard x = Steps.board();
-        Check.due("without one", Steps.loaded(x, 2, Steps.claim(0)), 0);
-        int[] priorities = {0, 0, 0, 3, 7, 7, 1, 7};
+        int[] priorities = {0, 0, 0, 3, 7, 6, 1, 5};
         for (int s = 2; s <= 7; s++) {
             Steps.stored(x, 2, Steps.priority(s), priorities[s]);
             x.raise(s, true);
             x.raise(s, false);
         }
-        Check.due("none is enabled", Steps.loaded(x, 2, Steps.claim(0)), 0);
         Steps.stored(x, 2, Steps.enable(0), 0xfe & ~(1 << 5));
         Steps.stored(x, 2, Steps.threshold(0), 7);
-        int pending = 0xfc;
-        int claimed = 0;
         for (int s : new int[] {4, 7, 3, 6}) {
-            Check.due("claimed", Steps.loaded(x, 2, Steps.claim(0)), s);
-            pending &= ~(1 << s);
-            claimed |= 1 << s;
-            Check.due("pending no more", x.look(9), pending);
-            Check.due("claimed", x.look(10), claimed);
+            Check.due("the one of the greatest priority", Steps.loaded(x, 2, Steps.claim(0)), s);
         }
         Check.due("2 has priority 0, 5 is not enabled", Steps.loaded(x, 2, Steps.claim(0)), 0);
-        Check.due("nothing changes then", x.look(9) | x.look(10) << 8, pending | claimed << 8);
         Check.due("5 is not enabled for 1 either", Steps.loaded(x, 2, Steps.claim(1)), 0);
         Steps.stored(x, 2, Steps.enable(1), 32);
         Check.due("5 for context 1", Steps.loaded(x, 2, Steps.claim(1)), 5);
-        HartBoard y = withSource(7, 1, 0);
-        y.set(6, Steps.claim(0));
-        Steps.done("a load into x0", y, Code.load(2, 0, 6, 0));
-        Check.due("claims, too", y.look(10), 128);
+        Sentence.of(14, MEMORY, "of several the least number:");
+        for (int least = 2; least <= 7; least++) {
+            HartBoard y = Steps.board();
+            Steps.stored(y, 2, Steps.enable(0), 0xfe);
+            for (int s = 7; s >= least; s--) {
+                Steps.stored(y, 2, Steps.priority(s), 7);
+                y.raise(s, true);
+            }
+            for (int s = least; s <= 7; s++) {
+                Check.due("of those from " + least, Steps.loaded(y, 2, Steps.claim(0)), s);
+            }
+        }
+        Sentence.of(14, MEMORY, "it is pending no more, and claimed;");
+        for (int s = 2; s <= 7; s++) {
+            HartBoard y = withSource(s, 1, 0);
+            y.raise(s == 2 ? 3 : 2, true);
+            y.set(6, Steps.claim(0));
+            Steps.done("a load, into x0 even", y, Code.load(2, 0, 6, 0));
+            Check.due("pending", y.look(9), 1 << (s == 2 ? 3 : 2));
+            Check.due("claimed", y.look(10), 1 << s);
+        }
+        Sentence.of(14, MEMORY, "0 without one.");
+        HartBoard none = Steps.board();
+        Check.due("none is pending", Steps.loaded(none, 2, Steps.claim(0)), 0);
+        none.raise(3, true);
+        Check.due("none is enabled", Steps.loaded(none, 2, Steps.claim(0)), 0);
+        Steps.stored(none, 2, Steps.enable(0), 8);
+        Check.due("none has a priority", Steps.loaded(none, 2, Steps.claim(0)), 0);
+        Check.due("it stays pending", none.look(9), 8);
+        Check.due("none is claimed", none.look(10), 0);
     }
 
     private static void completing() {

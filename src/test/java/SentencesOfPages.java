@@ -169,11 +169,12 @@ final class SentencesOfPages {
     }
 
     private static void brokenEntries() {
-        Sentence.of(15, STEP, "Page fault, if E's bit 0 (V) is 0, or bit 1 (R) is 0 and bit 2 (W) is 1, or E[63..54] is not"
-            + " 0.");
+        Sentence.of(15, STEP, "Page fault, if E's bit 0 (V) is 0,");
         breaks("bit 0 is 0", 0, 1);
+        Sentence.of(15, STEP, "or bit 1 (R) is 0 and bit 2 (W) is 1,");
         breaks("W without R", 4, 2);
         breaks("W and X without R", 12, 2);
+        Sentence.of(15, STEP, "or E[63..54] is not 0.");
         for (int bit = 54; bit < 64; bit++) {
             breaks("bit " + bit, 1L << bit, 0);
         }
@@ -182,21 +183,34 @@ final class SentencesOfPages {
     }
 
     private static void tables() {
-        Sentence.of(15, STEP, "If R and bit 3 (X) are both 0: page fault, if bit 4, 6 or 7 is 1, or i is 0; else T ="
-            + " E[53..10] * 4096, next level.");
+        Sentence.of(15, STEP, "If R and bit 3 (X) are both 0: page fault, if bit 4, 6 or 7 is 1,");
         for (long table : new long[] {Pages.ROOT, Pages.MIDDLE}) {
-            for (int flags = 0; flags < 1024; flags += 2) {
-                if ((flags & 0xe) == 0) {
-                    HartBoard x = leaf(1, ALL);
-                    x.poke(table + 8, 8, Pages.entry(table + 4096, 1 | flags));
-                    due("a table with bits " + flags, x, AT, (flags & 0xd0) == 0 ? EVERY : 0, PAGE);
-                }
+            for (int flags = 0; flags < 1024; flags += 16) {
+                HartBoard x = leaf(1, ALL);
+                x.poke(table + 8, 8, Pages.entry(table + 4096, 1 | flags));
+                due("a table with bits " + flags, x, AT, (flags & 0xd0) == 0 ? EVERY : 0, PAGE);
             }
         }
+        Sentence.of(15, STEP, "or i is 0;");
         for (int flags : new int[] {1, 0x321, 0x11, 0x41, 0x81}) {
             due("no leaf at the last level", leaf(1, flags), AT, 0, 0);
         }
+        HartBoard outside = new Pages(1).leaf(0, 1).board();
+        due("no table is looked for behind it", outside, AT, 0, 0);
+        Sentence.of(15, STEP, "else T = E[53..10] * 4096, next level.");
+        for (long table : new long[] {RAM, RAM + 0x3000, END - 4096}) {
+            HartBoard x = leaf(1, ALL);
+            x.poke(Pages.MIDDLE + 8, 8, Pages.entry(table, 1));
+            due("a table without a leaf", x, AT, 0, 0);
+            x.poke(table + 8, 8, Pages.entry(PAGE, ALL));
+            due("a table at " + Steps.hex(table), x, AT, EVERY, PAGE);
+        }
         due("tables lead on at privilege 0, too", leaf(0, ALL | U), AT, EVERY, PAGE);
+        for (int bit = 20; bit < 54; bit++) {
+            HartBoard x = leaf(1, ALL);
+            x.poke(Pages.MIDDLE + 8, 8, Pages.entry(Pages.LAST, 1) ^ 1L << bit);
+            dueAccessFault("a table with bit " + bit, x, AT);
+        }
     }
 
     private static void userPages() {

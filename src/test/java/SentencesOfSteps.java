@@ -13,6 +13,7 @@ final class SentencesOfSteps {
         interruptFirst();
         doneOrTraps();
         counting();
+        countingWhatWasWritten();
         ranks();
         pendingAndEnabled();
         notGiven();
@@ -94,8 +95,7 @@ final class SentencesOfSteps {
     }
 
     private static void counting() {
-        Sentence.of(14, STEP, "Behind the step, whatever it was, CYCLE and TIME are 1 more, RETIRED 1 more if an instruction"
-            + " was done (also what was written there in this step counts up).");
+        Sentence.of(14, STEP, "Behind the step, whatever it was, CYCLE and TIME are 1 more,");
         HartBoard x = Steps.board();
         Steps.done("an instruction", x, NOP);
         dueCounts("done", x, 1, 1, 1);
@@ -110,6 +110,29 @@ final class SentencesOfSteps {
         x.set(32, 0);
         Check.due("a fetch that traps", x.step(1), 0);
         dueCounts("a fetch that traps", x, 4, 4, 1);
+        x.order(0xb00, -1);
+        Steps.done("an instruction", x, NOP);
+        dueCounts("CYCLE wraps", x, 0, 5, 2);
+        Sentence.of(14, STEP, "RETIRED 1 more if an instruction was done");
+        for (int w : new int[] {NOP, Code.WFI, Code.FENCE, Code.MRET, Code.branch(1, 0, 0, 8)}) {
+            long before = x.control(0xb02);
+            x.lower(3);
+            Steps.done("an instruction", x, w);
+            Check.due("RETIRED behind " + Steps.hex(w), x.control(0xb02), before + 1);
+        }
+        x.lower(3);
+        for (int w : new int[] {0, Code.ECALL, Code.EBREAK, Code.load(3, 5, 0, 0)}) {
+            long before = x.control(0xb02);
+            Check.due("a trap", Code.one(x, w), 0);
+            Check.due("RETIRED behind " + Steps.hex(w), x.control(0xb02), before);
+        }
+    }
+
+    private static void countingWhatWasWritten() {
+        Sentence.of(14, STEP, "(also what was written there in this step counts up).");
+        HartBoard x = Steps.board();
+        x.step(4);
+        x.order(0xb02, 1);
         x.set(6, -1);
         Steps.done("a write of CYCLE", x, Code.control(1, 5, 0xb00, 6));
         Check.due("what it was", x.get(5), 4);
@@ -284,12 +307,23 @@ final class SentencesOfSteps {
     }
 
     private static void whereTheyGoOn() {
-        Sentence.of(14, STEP, "PC the TVEC without bits 1..0, for interrupts with bit 0 of TVEC 1 and 4 * i;");
+        Sentence.of(14, STEP, "PC the TVEC without bits 1..0,");
         for (long low = 0; low < 4; low++) {
             HartBoard x = trapping(3, 0);
             x.order(Code.MTVEC, Steps.TO_MACHINE | low);
             x.step(1);
             Check.due("a trap, TVEC with " + low, x.get(32), Steps.TO_MACHINE);
+            HartBoard y = trapping(0, -1);
+            y.order(Code.STVEC, Steps.TO_SUPERVISOR | low);
+            y.step(1);
+            Check.due("a trap to the supervisor, TVEC with " + low, y.get(32), Steps.TO_SUPERVISOR);
+        }
+        HartBoard far = trapping(3, 0);
+        far.order(Code.MTVEC, Long.MIN_VALUE);
+        far.step(1);
+        Check.due("a TVEC far away", far.get(32), Long.MIN_VALUE);
+        Sentence.of(14, STEP, "for interrupts with bit 0 of TVEC 1 and 4 * i;");
+        for (long low = 0; low < 4; low++) {
             for (int i : RANKS) {
                 HartBoard y = pending(1);
                 y.order(Code.MTVEC, Steps.TO_MACHINE | low);
@@ -310,10 +344,6 @@ final class SentencesOfSteps {
         last.order(Code.MIE, 0x800);
         last.step(1);
         Check.due("the last TVEC wraps", last.get(32), 40);
-        HartBoard far = trapping(3, 0);
-        far.order(Code.MTVEC, Long.MIN_VALUE);
-        far.step(1);
-        Check.due("a TVEC far away", far.get(32), Long.MIN_VALUE);
     }
 
     private static void privilegeOfTraps() {
@@ -357,31 +387,47 @@ final class SentencesOfSteps {
     }
 
     private static void faults() {
-        Sentence.of(14, STEP, "CAUSES: 1, 5, 7 access fault (fetch, load, store), 12, 13, 15 page fault likewise, 4, 6"
-            + " misaligned (load, store), VALUE the virtual address of the access (of a fetch: of its part of 2 bytes);");
+        Sentence.of(14, STEP, "CAUSES: 1, 5, 7 access fault (fetch, load, store),");
         HartBoard x = Steps.board();
         x.set(32, END);
         Steps.traps("a fetch", x, 1, END);
-        x.poke(END - 2, 2, 3);
-        x.set(32, END - 2);
-        Steps.traps("the second part of a fetch", x, 1, END);
         Steps.loadTraps(x, 3, END, 5);
         Steps.storeTraps(x, 3, END, 7);
-        Steps.loadTraps(x, 3, END + 1, 4);
-        Steps.storeTraps(x, 3, END + 1, 6);
-        HartBoard y = new Pages(1).leaf(Steps.RAM, 0xcf).board();
+        Sentence.of(14, STEP, "12, 13, 15 page fault likewise,");
+        HartBoard y = new Pages(1).leaf(RAM, 0xcf).board();
         long page = Pages.AT;
         y.poke(RAM, 4, Code.load(0, 5, 6, 0));
         y.poke(RAM + 4, 4, Code.store(0, 5, 6, 0));
+        pageFault(y, page + 4096, 0, 12, page + 4096);
+        pageFault(y, page, page + 4096, 13, page + 4096);
+        pageFault(y, page + 4, page + 4096, 15, page + 4096);
+        Sentence.of(14, STEP, "4, 6 misaligned (load, store),");
+        Steps.loadTraps(x, 3, RAM + 4, 4);
+        Steps.storeTraps(x, 3, RAM + 4, 6);
+        Steps.loadTraps(x, 1, END + 1, 4);
+        Steps.storeTraps(x, 1, END + 1, 6);
+        Sentence.of(14, STEP, "VALUE the virtual address of the access (of a fetch: of its part of 2 bytes);");
+        x.poke(END - 2, 2, 3);
+        x.set(32, END - 2);
+        Steps.traps("the second part of a fetch", x, 1, END);
         y.poke(RAM + 4094, 2, 3);
-        long[][] rows = {{page + 4096, 0, 12, page + 4096}, {page + 4094, 0, 12, page + 4096},
-            {page, page + 4097, 13, page + 4097}, {page + 4, page + 4098, 15, page + 4098}};
-        for (long[] row : rows) {
-            y.lower(1);
-            y.set(32, row[0]);
-            y.set(6, row[1]);
-            Steps.traps("a page fault", y, (int) row[2], row[3]);
-        }
+        pageFault(y, page + 4094, 0, 12, page + 4096);
+        pageFault(y, page, page + 4097, 13, page + 4097);
+        pageFault(y, page + 4, page + 4098, 15, page + 4098);
+        HartBoard nowhere = new Pages(1).leaf(0x30000000L, 0xcf).board();
+        pageFault(nowhere, page + 2, 0, 1, page + 2);
+        nowhere.order(Code.MSTATUS, 1 << 17 | 1 << 11);
+        Steps.loadTraps(nowhere, 3, page + 8, 5);
+        nowhere.order(Code.MSTATUS, 1 << 17 | 1 << 11);
+        Steps.storeTraps(nowhere, 3, page + 8, 7);
+    }
+
+    /** The step of the supervisor at a virtual PC, x6 being an address, traps. */
+    private static void pageFault(HartBoard x, long pc, long address, int cause, long value) {
+        x.lower(1);
+        x.set(32, pc);
+        x.set(6, address);
+        Steps.traps("a step at " + Steps.hex(pc), x, cause, value);
     }
 
     private static void illegal() {
