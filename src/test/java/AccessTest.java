@@ -75,17 +75,7 @@ public final class AccessTest {
         x.set(6, RAM + 72 + 2048);
         Code.one(x, Code.store(0, 0, 6, -2048));
         Check.due("store with offset", x.peek(RAM + 72) & 255, 0);
-        for (int f = 1; f < 7; f++) {
-            int n = 1 << (f & 3);
-            for (int off = 1; off < n; off++) {
-                dueLoadTrap(x, f, RAM + 64 + off, 4);
-                dueLoadTrap(x, f, off, 4);
-                if (f < 4) {
-                    dueStoreTrap(x, f, RAM + 64 + off, 6);
-                    dueStoreTrap(x, f, END + off, 6);
-                }
-            }
-        }
+        misaligned();
         for (int f = 0; f < 4; f++) {
             int n = 1 << f;
             Check.due("the last bytes", load(x, f, END - n), 0);
@@ -97,6 +87,21 @@ public final class AccessTest {
             dueStoreTrap(x, f, END, 7);
             dueStoreTrap(x, f, RAM - n, 7);
             dueStoreTrap(x, f, -8, 7);
+        }
+    }
+
+    private static void misaligned() {
+        for (int f = 1; f < 7; f++) {
+            HartBoard x = board();
+            int n = 1 << (f & 3);
+            for (int off = 1; off < n; off++) {
+                dueLoadTrap(x, f, RAM + 64 + off, 4);
+                dueLoadTrap(x, f, off, 4);
+                if (f < 4) {
+                    dueStoreTrap(x, f, RAM + 64 + off, 6);
+                    dueStoreTrap(x, f, END + off, 6);
+                }
+            }
         }
     }
 
@@ -154,18 +159,24 @@ public final class AccessTest {
         x.raise(4, true);
         store(x, 2, CONTROLLER + 0x1000, 0);
         Check.due("PENDING is not written", load(x, 2, CONTROLLER + 0x1000), 16);
+        wrongPlaces();
+    }
+
+    private static void wrongPlaces() {
+        HartBoard x = board();
         long[] wrong = {0, 0x20, 0xffc, 0x1004, 0x1080, 0x2004, 0x2084, 0x2100, 0x1fff00, 0x200008, 0x201008, 0x202000, 0x202004};
         for (long at : wrong) {
             dueLoadTrap(x, 2, CONTROLLER + at, 5);
             dueStoreTrap(x, 2, CONTROLLER + at, 7);
         }
+        HartBoard y = board();
         for (long at : new long[] {8, 0x1000, 0x2000, 0x200000}) {
             for (int f : new int[] {0, 1, 3}) {
-                dueLoadTrap(x, f, CONTROLLER + at, 5);
-                dueStoreTrap(x, f, CONTROLLER + at, 7);
+                dueLoadTrap(y, f, CONTROLLER + at, 5);
+                dueStoreTrap(y, f, CONTROLLER + at, 7);
             }
         }
-        dueLoadTrap(x, 2, CONTROLLER + 0x100000000L + 4, 5);
+        dueLoadTrap(y, 2, CONTROLLER + 0x100000000L + 4, 5);
     }
 
     private static void line() {
@@ -238,8 +249,8 @@ public final class AccessTest {
                 Check.due("atomic " + what[k] + " of 4", x.peek(RAM + 64), 0x8000000000000000L | four[k]);
             }
         }
-        HartBoard x = board();
         for (int k = 0; k < what.length; k++) {
+            HartBoard x = board();
             int w = Code.atomic(what[k], 3, 5, 6, 7);
             dueTrap(x, w, RAM + 68, 6);
             dueTrap(x, w, RAM + 65, 6);
@@ -248,6 +259,11 @@ public final class AccessTest {
             dueTrap(x, Code.atomic(what[k], 2, 5, 6, 7), CONTROLLER + 4, 7);
             dueTrap(x, Code.atomic(what[k], 2, 5, 6, 7), RAM + 66, 6);
         }
+        otherAtomics();
+    }
+
+    private static void otherAtomics() {
+        HartBoard x = board();
         dueTrap(x, Code.atomic(2, 3, 5, 6, 0), RAM + 68, 4);
         dueTrap(x, Code.atomic(2, 2, 5, 6, 0), RAM + 66, 4);
         dueTrap(x, Code.atomic(2, 3, 5, 6, 0), COMPARE, 5);
@@ -256,11 +272,12 @@ public final class AccessTest {
         dueTrap(x, Code.atomic(3, 3, 5, 6, 7), COMPARE, 7);
         for (int k = 0; k < 32; k++) {
             boolean told = k < 4 || k % 4 == 0;
+            HartBoard y = board();
             for (int f = 0; f < 8; f++) {
-                x.set(6, RAM + 64);
-                boolean done = Code.one(x, Code.atomic(k, f, 5, 6, k == 2 ? 0 : 7)) == 1;
+                y.set(6, RAM + 64);
+                boolean done = Code.one(y, Code.atomic(k, f, 5, 6, k == 2 ? 0 : 7)) == 1;
                 Check.due("atomic " + k + " with f " + f, done == (told && (f == 2 || f == 3)));
-                Check.due("else it is illegal", done || x.look(5) == 2);
+                Check.due("else it is illegal", done || y.look(5) == 2);
             }
         }
         Check.due("2 with rs2", Code.one(x, Code.atomic(2, 3, 5, 6, 7)), 0);
@@ -299,7 +316,8 @@ public final class AccessTest {
         reserve(x, 2, RAM + 64);
         reserve(x, 3, RAM + 128);
         dueStored("the earlier one", x, 2, RAM + 64, 1);
-        int[][] stores = {{0, 64, 0}, {0, 67, 0}, {0, 68, 1}, {0, 63, 1}, {3, 64, 0}, {2, 68, 1}, {3, 56, 1}, {2, 64, 0}, {1, 66, 0}};
+        int[][] stores = {{0, 64, 0}, {0, 67, 0}, {0, 68, 1}, {0, 63, 1}, {3, 64, 0}, {2, 68, 1}, {3, 56, 1}, {2, 64, 0},
+            {1, 66, 0}};
         for (int[] one : stores) {
             reserve(x, 2, RAM + 64);
             store(x, one[0], RAM + one[1], 9);

@@ -160,6 +160,7 @@ public final class ComputeTest {
         int[][] taken = {{1, 0, 0, 0, 0, 0}, {0, 1, 1, 1, 1, 1}, {0, 1, 0, 1, 0, 1}, {1, 0, 1, 0, 1, 0}, {0, 1, 0, 0, 1, 0},
             {1, 0, 1, 1, 0, 1}};
         for (int k = 0; k < f.length; k++) {
+            x = new HartBoard(16);
             for (int j = 0; j < pairs.length; j++) {
                 x.set(5, pairs[j][0]);
                 x.set(6, pairs[j][1]);

@@ -30,15 +30,18 @@ public final class ControlTest {
 
     private static void wrongNumbers() {
         HartBoard x = new HartBoard(16);
+        HartBoard y = x;
         for (int number = -5; number < 5000; number++) {
             boolean told = false;
             for (long[] row : PLAIN) {
                 told |= row[0] == number;
             }
+            y = number % 128 == 0 ? new HartBoard(16) : y;
             if (!told) {
+                HartBoard board = y;
                 int wrong = number;
-                Check.dueIllegalArgument("control " + number, () -> x.control(wrong));
-                Check.dueIllegalArgument("order " + number, () -> x.order(wrong, 1));
+                Check.dueIllegalArgument("control " + number, () -> board.control(wrong));
+                Check.dueIllegalArgument("order " + number, () -> board.order(wrong, 1));
             }
         }
         Check.dueIllegalArgument("control", () -> x.control(Integer.MIN_VALUE));

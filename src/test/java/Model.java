@@ -33,6 +33,8 @@ final class Model {
     final List<Integer> tape = new ArrayList<>();
     final ArrayDeque<Integer> input = new ArrayDeque<>();
     final List<Integer> output = new ArrayList<>();
+    /** Where RAM was written, in order: for those who compare it. */
+    final List<Long> written = new ArrayList<>();
     final Map<Integer, Long> kept = new HashMap<>();
     int soft;
     long compare = -1;
@@ -115,6 +117,7 @@ final class Model {
     }
 
     void ramWrite(long address, int n, long v) {
+        written.add(address);
         for (int k = 0; k < n; k++) {
             ram[(int) (address - BASE) + k] = (byte) (v >>> (8 * k));
         }

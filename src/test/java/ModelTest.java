@@ -2,8 +2,9 @@ import java.util.Arrays;
 import java.util.Random;
 
 /**
- * All promises at once: random runs of calls on a board and on the second reading of the document, compared after
- * every call. The seeds are fixed; as arguments: the first seed, how many runs.
+ * All promises at once: random runs of calls on a board and on the second reading of the document, compared in some
+ * places after every change and in all at the end. No run has more calls than an object is used for. The seeds are fixed;
+ * as arguments: the first seed, how many runs.
  */
 public final class ModelTest {
     private static final long RAM = Code.RAM;
@@ -13,6 +14,11 @@ public final class ModelTest {
     private static final long[] EDGES = {0, 1, 2, -1, -2, 7, 8, 63, 64, Long.MIN_VALUE, Long.MAX_VALUE, 0x7fffffffL,
         0x80000000L, 0xffffffffL, -0x80000000L, 0x100000000L, 0x5555555555555555L, 255, 4096};
     private static final int[] ATOMICS = {0, 1, 2, 3, 4, 8, 12, 16, 20, 24, 28, 2, 3, 2, 3};
+    private static final int MOST_CALLS = 512;
+    /** What is kept for the end: all registers, looks, control registers, three translations, some words of RAM. */
+    private static final int AT_THE_END = 33 + 11 + CONTROLS.length + 3 + 60;
+    /** More calls than any single change needs, with what is compared behind it. */
+    private static final int OF_A_CHANGE = 50;
     /** How often each cause was the latest behind a step; interrupts from 64 on. */
     private static final long[] SEEN = new long[80];
 
@@ -21,6 +27,7 @@ public final class ModelTest {
     private final Model model;
     private final int seed;
     private String call = "new";
+    private int calls = 0;
 
     private ModelTest(int seed) {
         this.seed = seed;
@@ -87,10 +94,11 @@ public final class ModelTest {
             case 9: case 10: case 11: return Code.store(any(oneIn(9) ? 8 : 4), rs2, rs1, oneIn(2) ? 0 : any(64) - 32);
             case 12: case 13: return Code.i(oneIn(2) ? 0x13 : 0x1b, any(8), rd, rs1, constant());
             case 14: case 15: case 16:
-                return Code.r(oneIn(2) ? 0x33 : 0x3b, any(8), oneIn(9) ? any(128) : new int[] {0, 1, 32, 1}[any(4)], rd, rs1, rs2);
+                int g = oneIn(9) ? any(128) : new int[] {0, 1, 32, 1}[any(4)];
+                return Code.r(oneIn(2) ? 0x33 : 0x3b, any(8), g, rd, rs1, rs2);
             case 17: case 18: case 19: return atomic(rd, rs1, rs2);
-            case 20: return new int[] {Code.ECALL, Code.EBREAK, Code.MRET, Code.SRET, Code.WFI, Code.SFENCE | rs1 << 15 | rs2 << 20,
-                Code.FENCE | any(3) << 12, Code.MRET, Code.SRET, Code.SFENCE | (oneIn(3) ? rd << 7 : 0)}[any(10)];
+            case 20: return new int[] {Code.ECALL, Code.EBREAK, Code.MRET, Code.SRET, Code.WFI, Code.FENCE | any(3) << 12,
+                Code.SFENCE | rs1 << 15 | rs2 << 20, Code.MRET, Code.SRET, Code.SFENCE | (oneIn(3) ? rd << 7 : 0)}[any(10)];
             default: return Code.control(oneIn(3) ? any(8) : 1 + any(3), rd, control(), oneIn(3) ? 0 : rs1);
         }
     }
@@ -105,30 +113,37 @@ public final class ModelTest {
     }
 
     private void program(long from, int bytes) {
-        long at = from;
-        while (at < from + bytes) {
-            if (oneIn(2)) {
-                int h = any(65536);
-                poke(at, 2, (h & 3) == 3 ? h ^ 1 : h);
+        long eight = 0;
+        int at = 0;
+        while (at < bytes) {
+            int h = any(65536);
+            boolean narrow = oneIn(2);
+            int w = narrow ? (h & 3) == 3 ? h ^ 1 : h : word();
+            for (int k = 0; k < (narrow ? 2 : 4); k += 2) {
+                eight |= (w >>> 8 * k & 0xffffL) << at % 8 * 8;
                 at += 2;
-            } else {
-                poke(at, 4, word());
-                at += 4;
+                if (at % 8 == 0) {
+                    poke(from + at - 8, 8, eight);
+                    eight = 0;
+                }
             }
         }
     }
 
     private void poke(long address, int n, long v) {
+        calls++;
         board.poke(address, n, v);
         model.ramWrite(address, n, v);
     }
 
     private void order(int number, long v) {
+        calls++;
         board.order(number, v);
         model.writeControl(number, v);
     }
 
     private void set(int register, long v) {
+        calls++;
         board.set(register, v);
         if (register == 32) {
             model.pc = v & ~1L;
@@ -183,7 +198,7 @@ public final class ModelTest {
             tables();
         }
         if (oneIn(2)) {
-            devices();
+            allDevices();
         }
         if (oneIn(2)) {
             order(0x304, random.nextLong());
@@ -199,31 +214,40 @@ public final class ModelTest {
         set(31, v);
         poke(RAM + 0x3000, 4, Code.store(address >= 0x10000000L ? 0 : 2, 31, 30, 0));
         set(32, RAM + 0x3000);
+        calls++;
         due("the store", board.step(1), model.once() ? 1 : 0);
     }
 
     private void lower(int p) {
+        calls++;
         board.lower(p);
         model.priv = p;
     }
 
-    private void devices() {
-        for (int s = 1; s < 8; s++) {
-            device(0xc000000L + 4 * s, any(16));
+    private void allDevices() {
+        for (int k = 0; k < 15; k++) {
+            setDevice(k);
         }
-        device(0xc002000L, random.nextInt());
-        device(0xc002080L, random.nextInt());
-        device(0xc200000L, any(8) & any(8));
-        device(0xc201000L, any(8) & any(8));
-        device(0x10000001L, any(256));
-        device(0x2004004L, oneIn(2) ? 0 : -1);
-        device(0x2004000L, any(200));
-        device(0x2000000L, any(8) == 0 ? 1 : 0);
+    }
+
+    private void setDevice(int which) {
+        switch (which) {
+            case 0: device(0xc002000L, random.nextInt()); break;
+            case 1: device(0xc002080L, random.nextInt()); break;
+            case 2: device(0xc200000L, any(8) & any(8)); break;
+            case 3: device(0xc201000L, any(8) & any(8)); break;
+            case 4: device(0x10000001L, any(256)); break;
+            case 5: device(0x2004004L, oneIn(2) ? 0 : -1); break;
+            case 6: device(0x2004000L, any(200)); break;
+            case 7: device(0x2000000L, any(8) == 0 ? 1 : 0); break;
+            default: device(0xc000000L + 4 * (which - 7), any(16)); break;
+        }
     }
 
     /** Somewhere else in the programs, at some privilege, often with interrupts open. */
     private void jump() {
         lower(new int[] {0, 1, 1, 3}[any(4)]);
+        calls++;
         long base = board.translate(0, 0) >= 0 && oneIn(2) ? 0 : RAM;
         set(32, base + (oneIn(3) ? 0x1000 * any(3) : 0) + (oneIn(2) ? 0 : 2 * any(60)));
         if (oneIn(4)) {
@@ -256,14 +280,16 @@ public final class ModelTest {
             done += good ? 1 : 0;
             SEEN[good ? 79 : model.latest]++;
         }
+        calls++;
         due("steps done", board.step(n), done);
     }
 
     private void change() {
         switch (any(14)) {
             case 0:
-                call = "devices";
-                devices();
+                for (int k = 0; k < 4; k++) {
+                    setDevice(any(15));
+                }
                 break;
             case 1: {
                 int n = 1 + any(8);
@@ -272,17 +298,20 @@ public final class ModelTest {
                 for (int k = 0; k < n; k++) {
                     model.tape.add((int) (v >> 8 * k & 255));
                 }
+                calls++;
                 due("size", board.feed(n, v), model.tape.size());
                 break;
             }
             case 2:
                 call = "type()";
+                calls++;
                 due("left", board.type(), model.type());
                 break;
             case 3: case 4: {
                 int source = 2 + any(6);
                 boolean high = random.nextBoolean();
                 call = "raise(" + source + ", " + high + ")";
+                calls++;
                 board.raise(source, high);
                 model.driven[source] = high;
                 model.settle();
@@ -333,53 +362,84 @@ public final class ModelTest {
         Check.due("seed " + seed + ", behind " + call + ": " + what, got, want);
     }
 
-    private void compare() {
-        for (int k = 0; k < 32; k++) {
-            due("x" + k, board.get(k), model.x[k]);
-        }
-        due("PC", board.get(32), model.pc);
-        for (int k = 0; k <= 10; k++) {
-            due("look(" + k + ")", board.look(k), model.look(k));
-        }
-        for (int number : CONTROLS) {
-            due("control 0x" + Integer.toHexString(number), board.control(number), model.readControl(number));
-        }
-        for (int k = 0; k < 3; k++) {
-            long v = oneIn(2) ? any(20) * 4096L + any(4096) : oneIn(2) ? RAM + any(80000) : -1L - any(16384);
-            long address = oneIn(20) ? random.nextLong() : v;
-            due("translate(" + address + ", " + k + ")", board.translate(address, k), model.translate(address, k));
+    private void compareRegister(int k) {
+        calls++;
+        due("register " + k, board.get(k), k == 32 ? model.pc : model.x[k]);
+    }
+
+    private void compareLook(int k) {
+        calls++;
+        due("look(" + k + ")", board.look(k), model.look(k));
+    }
+
+    private void compareControl(int number) {
+        calls++;
+        due("control 0x" + Integer.toHexString(number), board.control(number), model.readControl(number));
+    }
+
+    private void compareTranslate(int kind) {
+        calls++;
+        long v = oneIn(2) ? any(20) * 4096L + any(4096) : oneIn(2) ? RAM + any(80000) : -1L - any(16384);
+        long address = oneIn(20) ? random.nextLong() : v;
+        due("translate(" + address + ", " + kind + ")", board.translate(address, kind), model.translate(address, kind));
+    }
+
+    private void compareSome() {
+        compareRegister(oneIn(3) ? 32 : any(32));
+        compareLook(any(11));
+        compareControl(CONTROLS[any(CONTROLS.length)]);
+        if (oneIn(2)) {
+            compareTranslate(any(3));
         }
     }
 
-    private void compareMemory() {
-        for (int at = 0; at < model.ram.length; at += 8) {
-            long got = board.peek(RAM + at);
-            long want = model.ramRead(RAM + at, 8);
-            if (got != want) {
-                due("RAM at " + at, got, want);
-            }
+    private void compareAll() {
+        for (int k = 0; k <= 32; k++) {
+            compareRegister(k);
         }
-        for (int k = 0; k < model.output.size(); k++) {
+        for (int k = 0; k <= 10; k++) {
+            compareLook(k);
+        }
+        for (int number : CONTROLS) {
+            compareControl(number);
+        }
+        for (int k = 0; k < 3; k++) {
+            compareTranslate(k);
+        }
+    }
+
+    /** The words of RAM that were written last, and bytes of OUTPUT, until no call is left. */
+    private void compareMemory() {
+        for (int k = model.output.size() - 1; k >= 0 && calls < MOST_CALLS - 30; k--) {
+            calls++;
             due("out(" + k + ")", board.out(k), model.output.get(k));
+        }
+        for (int k = model.written.size() - 1; k >= 0 && calls < MOST_CALLS; k--) {
+            calls++;
+            long at = Math.min(model.written.get(k), RAM + model.ram.length - 8);
+            due("RAM at " + Long.toHexString(at), board.peek(at), model.ramRead(at, 8));
         }
     }
 
     private void run() {
         beginning();
-        for (int k = 0; k < 60; k++) {
+        model.written.clear();
+        while (calls < MOST_CALLS - AT_THE_END - OF_A_CHANGE) {
             if (oneIn(3)) {
                 change();
             } else {
                 step();
             }
-            compare();
+            compareSome();
         }
+        compareAll();
         compareMemory();
+        Check.due("seed " + seed + " has no more calls than are promised", calls <= MOST_CALLS);
     }
 
     public static void main(String[] args) {
         int first = args.length > 0 ? Integer.parseInt(args[0]) : 1;
-        int runs = args.length > 1 ? Integer.parseInt(args[1]) : 1500;
+        int runs = args.length > 1 ? Integer.parseInt(args[1]) : 12000;
         for (int seed = first; seed < first + runs; seed++) {
             new ModelTest(seed).run();
         }

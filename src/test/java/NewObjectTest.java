@@ -8,8 +8,10 @@ public final class NewObjectTest {
         Check.dueNoSuchElement("behind " + want + " pages", () -> x.peek(end - 7));
     }
 
-    private static void controls(HartBoard x) {
+    private static void controls() {
+        HartBoard x = null;
         for (int number = 0; number < 4096; number++) {
+            x = number % 256 == 0 ? new HartBoard(16) : x;
             boolean there = true;
             long v = 0;
             try {
@@ -45,7 +47,7 @@ public final class NewObjectTest {
                 Check.due("RAM at first", x.peek(Code.RAM + at), 0);
             }
         }
-        controls(x);
+        controls();
         HartBoard other = new HartBoard(16);
         x.poke(Code.RAM, 8, -1);
         x.set(5, 7);

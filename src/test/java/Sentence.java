@@ -13,7 +13,9 @@ final class Sentence {
     private static final String[] TERMS = {"WORDS.", "PRIVILEGE is 0 (user)", "PHYSICAL MEMORY (", "CONTROL REGISTERS (",
         "A STEP.", "INSTRUCTIONS of 32 bits", "INSTRUCTIONS of 16 bits", "IMAGES.", "Of several exceptions", "## Promise 1:"};
     private static final int PROMISES = 17;
+    private static final Path DOCUMENT = Path.of("../shared/DOC.md");
 
+    /** Empty where the document is not at hand: the answers are looked at even so, the words are not. */
     private static final String TEXT = text();
     private static final boolean[] SAID = new boolean[TEXT.length()];
     private static int madeBefore = 0;
@@ -23,9 +25,12 @@ final class Sentence {
     }
 
     private static String text() {
+        if (!Files.isReadable(DOCUMENT)) {
+            System.out.println(DOCUMENT + " is not here: no sentence is looked up");
+            return "";
+        }
         try {
-            return Files.readString(Path.of("../shared/DOC.md")).replace("```text", "").replace("```", "")
-                .replaceAll("\\s+", " ");
+            return Files.readString(DOCUMENT).replace("```text", "").replace("```", "").replaceAll("\\s+", " ");
         } catch (IOException e) {
             throw new UncheckedIOException(e);
         }
@@ -33,23 +38,20 @@ final class Sentence {
 
     /** A sentence that stands under the heading of a promise. */
     static void of(int promise, String words) {
-        int from = TEXT.indexOf("## Promise " + promise + ":");
-        begin("Promise " + promise + ": '" + words + "'", words, from, endOfPromise(promise));
+        begin("Promise " + promise + ": '" + words + "'", words, beginOfPromise(promise), endOfPromise(promise));
     }
 
     /** A sentence that stands under 'Terms', for a promise that rests on it. */
     static void of(int promise, String term, String words) {
-        String where = "Promise " + promise + ", Terms, " + term + ": '" + words + "'";
         int from = 0;
-        for (int k = 0; k + 1 < TERMS.length; k++) {
+        int to = 0;
+        for (int k = 0; k + 1 < TERMS.length && to == 0; k++) {
             from = TEXT.indexOf(TERMS[k], from);
             if (TERMS[k].startsWith(term)) {
-                begin(where, words, from, TEXT.indexOf(TERMS[k + 1], from + 1));
-                return;
+                to = TEXT.indexOf(TERMS[k + 1], from + 1);
             }
         }
-        Check.about(where);
-        Check.due("there is such a part of Terms", false);
+        begin("Promise " + promise + ", Terms, " + term + ": '" + words + "'", words, from, to);
     }
 
     /** The sentence that stands before all promises: how long an object is used. */
@@ -57,23 +59,33 @@ final class Sentence {
         begin("What it is: '" + words + "'", words, 0, TEXT.indexOf("## The public face"));
     }
 
+    private static int beginOfPromise(int promise) {
+        return TEXT.indexOf("## Promise " + promise + ":");
+    }
+
     private static int endOfPromise(int promise) {
-        return TEXT.indexOf(promise == PROMISES ? "## Not promised" : "## Promise " + (promise + 1) + ":");
+        return promise == PROMISES ? TEXT.indexOf("## Not promised") : beginOfPromise(promise + 1);
     }
 
     private static void begin(String where, String words, int from, int to) {
         endOfLatest();
         Check.about(where);
-        int at = TEXT.indexOf(words, Math.max(from, 0));
-        boolean stands = from >= 0 && at >= 0 && at + words.length() <= to;
+        if (!TEXT.isEmpty()) {
+            lookUp(words, from, to);
+        }
+        latest = where;
+        madeBefore = Check.made();
+    }
+
+    private static void lookUp(String words, int from, int to) {
+        int at = from < 0 ? -1 : TEXT.indexOf(words, from);
+        boolean stands = at >= 0 && at + words.length() <= to;
         Check.due("the document says so in that part", stands);
         if (stands) {
             int again = TEXT.indexOf(words, at + 1);
             Check.due("it is said once there", again < 0 || again >= to);
             Arrays.fill(SAID, at, at + words.length(), true);
         }
-        latest = where;
-        madeBefore = Check.made();
     }
 
     private static void endOfLatest() {
@@ -87,11 +99,13 @@ final class Sentence {
     static void dueAllBut(String... words) {
         endOfLatest();
         Check.about("");
-        for (int promise = 1; promise <= PROMISES; promise++) {
-            int from = TEXT.indexOf("## Promise " + promise + ":");
-            dueSaid(TEXT.indexOf("`:", from) + 2, endOfPromise(promise), words);
+        if (TEXT.isEmpty()) {
+            return;
         }
-        dueSaid(TEXT.indexOf("## Terms") + "## Terms".length(), TEXT.indexOf("## Promise 1:"), words);
+        for (int promise = 1; promise <= PROMISES; promise++) {
+            dueSaid(TEXT.indexOf("`:", beginOfPromise(promise)) + 2, endOfPromise(promise), words);
+        }
+        dueSaid(TEXT.indexOf("## Terms") + "## Terms".length(), beginOfPromise(1), words);
     }
 
     private static void dueSaid(int from, int to, String[] words) {

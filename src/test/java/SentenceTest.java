@@ -14,8 +14,7 @@ public final class SentenceTest {
         SentencesOfImages.run();
         // The parts' names, and a sentence of notation.
         Sentence.dueAllBut("WORDS", "V[h..l] are bits h to l of V; bits of a constant are written 0x", "PHYSICAL MEMORY",
-            "A STEP",
-            "INSTRUCTIONS of 32 bits", "INSTRUCTIONS of 16 bits", "IMAGES");
+            "A STEP", "INSTRUCTIONS of 32 bits", "INSTRUCTIONS of 16 bits", "IMAGES");
         Check.end();
     }
 }
