@@ -3,15 +3,25 @@
  * is for; in the end no sentence is left over.
  */
 public final class SentenceTest {
+    /** What throws where nothing is due is a wrong answer to the sentence at hand, and not the end of the others. */
+    private static void run(Check.Call tests) {
+        try {
+            tests.make();
+        } catch (RuntimeException e) {
+            e.printStackTrace(System.out);
+            Check.due("nothing is thrown, " + e, false);
+        }
+    }
+
     public static void main(String[] args) {
-        SentencesOfCalls.run();
-        SentencesOfMemory.run();
-        SentencesOfControls.run();
-        SentencesOfSteps.run();
-        SentencesOfPages.run();
-        SentencesOfInstructions.run();
-        SentencesOfHalves.run();
-        SentencesOfImages.run();
+        run(SentencesOfCalls::run);
+        run(SentencesOfMemory::run);
+        run(SentencesOfControls::run);
+        run(SentencesOfSteps::run);
+        run(SentencesOfPages::run);
+        run(SentencesOfInstructions::run);
+        run(SentencesOfHalves::run);
+        run(SentencesOfImages::run);
         // The parts' names, and a sentence of notation.
         Sentence.dueAllBut("WORDS", "V[h..l] are bits h to l of V; bits of a constant are written 0x", "PHYSICAL MEMORY",
             "A STEP", "INSTRUCTIONS of 32 bits", "INSTRUCTIONS of 16 bits", "IMAGES");

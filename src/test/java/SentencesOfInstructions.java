@@ -9,6 +9,9 @@ final class SentencesOfInstructions {
     private static final long MAX32 = Integer.MAX_VALUE;
     private static final String KIND = "INSTRUCTIONS of 32 bits";
 
+    private static final long[] NUMBERS = {0, 1, 2, 3, 7, 10, -1, -2, -3, -10, MIN, MIN + 1, MAX, MAX - 1, MIN32, MAX32,
+        0xffffffffL, 1L << 32, 0x123456789abcdefL, 0xfedcba9876543210L, 0x5555555555555555L, 0xaaaaaaaaaaaaaaabL};
+
     private SentencesOfInstructions() {
     }
 
@@ -380,6 +383,15 @@ final class SentencesOfInstructions {
         for (long[] row : rows) {
             due(0x33, (int) row[0], 1, row[1], row[2], row[3]);
         }
+        for (long a : NUMBERS) {
+            for (long b : NUMBERS) {
+                long unsigned = Math.multiplyHigh(a, b) + (a < 0 ? b : 0) + (b < 0 ? a : 0);
+                due(0x33, 0, 1, a, b, a * b);
+                due(0x33, 1, 1, a, b, Math.multiplyHigh(a, b));
+                due(0x33, 2, 1, a, b, unsigned - (a < 0 ? b : 0));
+                due(0x33, 3, 1, a, b, unsigned);
+            }
+        }
     }
 
     private static void quotients() {
@@ -389,6 +401,11 @@ final class SentencesOfInstructions {
             {4, MIN, MIN, 1}};
         for (long[] row : rows) {
             due(0x33, (int) row[0], 1, row[1], row[2], row[3]);
+        }
+        for (long a : NUMBERS) {
+            for (long b : NUMBERS) {
+                due(0x33, 4, 1, a, b, b == 0 ? -1 : a / b);
+            }
         }
     }
 
@@ -400,6 +417,11 @@ final class SentencesOfInstructions {
         for (long[] row : rows) {
             due(0x33, (int) row[0], 1, row[1], row[2], row[3]);
         }
+        for (long a : NUMBERS) {
+            for (long b : NUMBERS) {
+                due(0x33, 5, 1, a, b, b == 0 ? -1 : Long.divideUnsigned(a, b));
+            }
+        }
     }
 
     private static void rests() {
@@ -408,6 +430,11 @@ final class SentencesOfInstructions {
             {6, MIN, 0, MIN}, {6, 0, 0, 0}, {6, MIN, -1, 0}, {6, MIN, MAX, -1}, {6, MAX, MIN, MAX}};
         for (long[] row : rows) {
             due(0x33, (int) row[0], 1, row[1], row[2], row[3]);
+        }
+        for (long a : NUMBERS) {
+            for (long b : NUMBERS) {
+                due(0x33, 6, 1, a, b, b == 0 ? a : a % b);
+            }
         }
     }
 
@@ -418,6 +445,11 @@ final class SentencesOfInstructions {
             {7, -1, MAX, 1}};
         for (long[] row : rows) {
             due(0x33, (int) row[0], 1, row[1], row[2], row[3]);
+        }
+        for (long a : NUMBERS) {
+            for (long b : NUMBERS) {
+                due(0x33, 7, 1, a, b, b == 0 ? a : Long.remainderUnsigned(a, b));
+            }
         }
     }
 
@@ -443,6 +475,17 @@ final class SentencesOfInstructions {
             {7, -1, MIN32, MAX32}};
         for (long[] row : products) {
             due(0x3b, (int) row[0], 1, row[1], row[2], row[3]);
+        }
+        for (long a : NUMBERS) {
+            for (long b : NUMBERS) {
+                int p = (int) a;
+                int q = (int) b;
+                due(0x3b, 0, 1, a, b, p * q);
+                due(0x3b, 4, 1, a, b, q == 0 ? -1 : p / q);
+                due(0x3b, 5, 1, a, b, q == 0 ? -1 : Integer.divideUnsigned(p, q));
+                due(0x3b, 6, 1, a, b, q == 0 ? p : p % q);
+                due(0x3b, 7, 1, a, b, q == 0 ? p : Integer.remainderUnsigned(p, q));
+            }
         }
         for (int g = 0; g < 128; g++) {
             for (int f = 0; f < 8; f++) {

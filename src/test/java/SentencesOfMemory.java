@@ -600,6 +600,21 @@ final class SentencesOfMemory {
             Check.due(s + " is as it was set last", x.look(9) >> s & 1, s == 2 ? 1 : 0);
             Steps.stored(x, 2, Steps.enable(0), 0xf8);
         }
+        for (int high = 0; high < 2; high++) {
+            // 4 is high and claimed, 6 is low and pending, while 5 is set.
+            HartBoard y = withSource(4, 1, 0);
+            Steps.loaded(y, 2, Steps.claim(0));
+            y.raise(6, true);
+            y.raise(6, false);
+            y.raise(5, high == 1);
+            Steps.stored(y, 2, Steps.claim(0), 4);
+            Check.due("4 is high, when 5 has been set", y.look(9), 0x50 | high << 5);
+            Steps.stored(y, 2, Steps.priority(6), 2);
+            Steps.stored(y, 2, Steps.enable(0), 0x40);
+            Check.due("6 is claimed", Steps.loaded(y, 2, Steps.claim(0)), 6);
+            Steps.stored(y, 2, Steps.claim(0), 6);
+            Check.due("6 is low, when 5 has been set", y.look(9), 0x10 | high << 5);
+        }
     }
 
     private static void settling() {

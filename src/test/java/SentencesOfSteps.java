@@ -190,6 +190,19 @@ final class SentencesOfSteps {
             Check.due("both have bit " + i, alone.step(1), 0);
             Check.due("it is taken", alone.look(5), 64 + i);
         }
+        for (int i : new int[] {3, 7, 11, 9}) {
+            HartBoard x = Steps.board();
+            Steps.stored(x, 2, Steps.SOFT, i == 3 ? 1 : 0);
+            Steps.stored(x, 3, Steps.COMPARE, i == 7 ? 0 : -1);
+            Steps.stored(x, 2, Steps.priority(2), 1);
+            Steps.stored(x, 2, Steps.enable(i == 9 ? 1 : 0), i == 9 || i == 11 ? 4 : 0);
+            x.raise(2, true);
+            Check.due("MIP, of which nothing is kept", x.control(Code.MIP), 1L << i);
+            x.lower(1);
+            x.order(Code.MIE, 1L << i);
+            Check.due("a device's bit " + i, x.step(1), 0);
+            Check.due("it is taken", x.look(5), 64 + i);
+        }
     }
 
     private static void notGiven() {
