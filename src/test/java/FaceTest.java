@@ -1,6 +1,8 @@
 import java.lang.reflect.Constructor;
 import java.lang.reflect.Method;
 import java.lang.reflect.Modifier;
+import java.nio.file.Files;
+import java.nio.file.Path;
 import java.util.Arrays;
 import java.util.Set;
 import java.util.TreeSet;
@@ -8,20 +10,49 @@ import java.util.TreeSet;
 /** The face of the class is the document's, and there is nothing beside it. */
 public final class FaceTest {
     private static final Set<String> FACE = new TreeSet<>(Arrays.asList(
-        "int feed(int,long)", "int wipe()", "int load()", "int type()", "void poke(long,int,long)",
-        "long peek(long)", "void set(int,long)", "long get(int)", "void lower(int)", "long control(int)",
-        "void order(int,long)", "void raise(int,boolean)", "int step(int)", "long translate(long,int)",
-        "int look(int)", "int out(int)"));
+        "int feed(int,long) IllegalArgumentException IllegalStateException", "int wipe()", "int load()",
+        "int type() IllegalStateException", "void poke(long,int,long) IllegalArgumentException NoSuchElementException",
+        "long peek(long) NoSuchElementException", "void set(int,long) IllegalArgumentException",
+        "long get(int) IllegalArgumentException", "void lower(int) IllegalArgumentException",
+        "long control(int) IllegalArgumentException", "void order(int,long) IllegalArgumentException",
+        "void raise(int,boolean) IllegalArgumentException", "int step(int) IllegalArgumentException",
+        "long translate(long,int) IllegalArgumentException", "int look(int) IllegalArgumentException",
+        "int out(int) NoSuchElementException"));
+    private static final Path DOCUMENT = Path.of("../shared/DOC.md");
 
     private static String written(Method m) {
         StringBuilder text = new StringBuilder(m.getReturnType() + " " + m.getName() + "(");
         for (Class<?> c : m.getParameterTypes()) {
             text.append(text.charAt(text.length() - 1) == '(' ? "" : ",").append(c);
         }
-        return text.append(")").toString();
+        text.append(")");
+        for (Class<?> c : m.getExceptionTypes()) {
+            text.append(" ").append(c.getSimpleName());
+        }
+        return text.toString();
     }
 
-    public static void main(String[] args) {
+    /** Each line of the document's face begins a member of the class, word by word. */
+    private static void documentsFace() throws java.io.IOException {
+        if (!Files.isReadable(DOCUMENT)) {
+            System.out.println(DOCUMENT + " is not here: the face is not looked up");
+            return;
+        }
+        String text = Files.readString(DOCUMENT);
+        int begin = text.indexOf("```java");
+        String source = Files.readString(Path.of("src/main/java/HartBoard.java"));
+        int members = 0;
+        for (String line : text.substring(begin, text.indexOf("```", begin + 3)).split("\n")) {
+            if (line.startsWith("    public ")) {
+                members++;
+                Check.due("the class has" + line, source.contains("\n" + line.replace(";", " {") + "\n"));
+            }
+        }
+        Check.due("members of the document's face", members, FACE.size() + 1);
+    }
+
+    public static void main(String[] args) throws java.io.IOException {
+        documentsFace();
         Set<String> open = new TreeSet<>();
         Set<String> names = new TreeSet<>();
         for (Method m : HartBoard.class.getDeclaredMethods()) {

@@ -13,6 +13,8 @@ final class Sentence {
     private static final String[] TERMS = {"WORDS.", "PRIVILEGE is 0 (user)", "PHYSICAL MEMORY (", "CONTROL REGISTERS (",
         "A STEP.", "INSTRUCTIONS of 32 bits", "INSTRUCTIONS of 16 bits", "IMAGES.", "Of several exceptions", "## Promise 1:"};
     private static final int PROMISES = 17;
+    private static final String USE = "## What it is";
+    private static final String END = "## Not promised";
     private static final Path DOCUMENT = Path.of("../shared/DOC.md");
 
     /** Empty where the document is not at hand: the answers are looked at even so, the words are not. */
@@ -54,9 +56,14 @@ final class Sentence {
         begin("Promise " + promise + ", Terms, " + term + ": '" + words + "'", words, from, to);
     }
 
-    /** The sentence that stands before all promises: how long an object is used. */
+    /** A sentence that stands before all promises, under 'What it is'. */
     static void ofUse(String words) {
-        begin("What it is: '" + words + "'", words, 0, TEXT.indexOf("## The public face"));
+        begin("What it is: '" + words + "'", words, TEXT.indexOf(USE), TEXT.indexOf("## The public face"));
+    }
+
+    /** A sentence that stands behind all promises, under 'Not promised'. */
+    static void ofEnd(String words) {
+        begin("Not promised: '" + words + "'", words, TEXT.indexOf(END), TEXT.length());
     }
 
     private static int beginOfPromise(int promise) {
@@ -64,7 +71,7 @@ final class Sentence {
     }
 
     private static int endOfPromise(int promise) {
-        return promise == PROMISES ? TEXT.indexOf("## Not promised") : beginOfPromise(promise + 1);
+        return promise == PROMISES ? TEXT.indexOf(END) : beginOfPromise(promise + 1);
     }
 
     private static void begin(String where, String words, int from, int to) {
@@ -95,7 +102,7 @@ final class Sentence {
         }
     }
 
-    /** At the end: what under 'Terms' and the promises was no test's sentence has no words, but for those given. */
+    /** At the end: what was no test's sentence, from the first line to the last, has no words, but for those given. */
     static void dueAllBut(String... words) {
         endOfLatest();
         Check.about("");
@@ -106,6 +113,8 @@ final class Sentence {
             dueSaid(TEXT.indexOf("`:", beginOfPromise(promise)) + 2, endOfPromise(promise), words);
         }
         dueSaid(TEXT.indexOf("## Terms") + "## Terms".length(), beginOfPromise(1), words);
+        dueSaid(TEXT.indexOf(USE) + USE.length(), TEXT.indexOf("## The public face"), words);
+        dueSaid(TEXT.indexOf(END) + END.length(), TEXT.length(), words);
     }
 
     private static void dueSaid(int from, int to, String[] words) {

@@ -14,6 +14,7 @@ public final class SentenceTest {
     }
 
     public static void main(String[] args) {
+        run(SentencesOfBoard::run);
         run(SentencesOfCalls::run);
         run(SentencesOfMemory::run);
         run(SentencesOfControls::run);
@@ -22,9 +23,11 @@ public final class SentenceTest {
         run(SentencesOfInstructions::run);
         run(SentencesOfHalves::run);
         run(SentencesOfImages::run);
-        // The parts' names, and a sentence of notation.
-        Sentence.dueAllBut("WORDS", "V[h..l] are bits h to l of V; bits of a constant are written 0x", "PHYSICAL MEMORY",
-            "A STEP", "INSTRUCTIONS of 32 bits", "INSTRUCTIONS of 16 bits", "IMAGES");
+        // The parts' names, a sentence of notation, and what the document leaves free.
+        Sentence.dueAllBut("A board", "WORDS", "V[h..l] are bits h to l of V; bits of a constant are written 0x", "PHYSICAL MEMORY",
+            "A STEP", "INSTRUCTIONS of 32 bits", "INSTRUCTIONS of 16 bits", "IMAGES",
+            "How the state is held inside the object is free, as are the speed of each call, the text of toString and the"
+                + " behaviour of equals and hashCode. Use of one object from several threads at once is not promised to be safe");
         Check.end();
     }
 }

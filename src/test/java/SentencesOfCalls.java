@@ -11,7 +11,6 @@ final class SentencesOfCalls {
     }
 
     static void run() {
-        use();
         newObject();
         feed();
         feedOfWrongSize();
@@ -49,15 +48,6 @@ final class SentencesOfCalls {
         severalExceptions();
         refusedCalls();
         ownMemory();
-    }
-
-    private static void use() {
-        Sentence.ofUse("An object is used for at most 512 calls after it has been made;");
-        HartBoard x = new HartBoard(16);
-        for (int k = 1; k <= 511; k++) {
-            Check.due("call " + k, x.feed(8, k), 8 * k);
-        }
-        Check.due("call 512", x.wipe(), 8 * 511);
     }
 
     private static void newObject() {
